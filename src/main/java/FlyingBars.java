@@ -38,7 +38,7 @@ public final class FlyingBars {
     private Rig current = new Rig();
     private Rig spare = new Rig();
     private final Reader reader = new Reader(tape, spare);
-    private final Flight probe = new Flight(current.tricks);
+    private final Flight probe = new Flight();
     private final Search search = new Search(current);
     private final Act plan = new Act();
     private final Bill bill = new Bill();
@@ -1155,8 +1155,11 @@ public final class FlyingBars {
         private static final int BOUND = 1000000;
 
         private final int[] stack = new int[64];
-        private Tricks tricks;
-        private int trick;
+        private int[] code = new int[1];
+        private int sumBegin;
+        private int testBegin;
+        private int testEnd;
+        private int arms;
         private int miss;
         private int swing;
         private int gap;
@@ -1164,24 +1167,24 @@ public final class FlyingBars {
         private int thrown;
         private int caught;
 
-        Flight(Tricks tricks) {
-            this.tricks = tricks;
-        }
-
-        boolean aim(Rig rig, int from, int newTick, int newTrick, int to) {
+        boolean aim(Rig rig, int from, int newTick, int trick, int to) {
             Bars bars = rig.bars;
-            if (from == to || !bars.isThere(from) || !bars.isThere(to) || !rig.tricks.isThere(newTrick)) {
+            Tricks tricks = rig.tricks;
+            if (from == to || !bars.isThere(from) || !bars.isThere(to) || !tricks.isThere(trick)) {
                 return false;
             }
-            tricks = rig.tricks;
-            trick = newTrick;
+            code = tricks.code;
+            sumBegin = tricks.sumBegin[trick];
+            testBegin = tricks.testBegin[trick];
+            testEnd = tricks.testEnd[trick];
+            arms = tricks.arms[trick];
             tick = newTick;
-            int ticks = tricks.ticksOf(trick);
+            int ticks = tricks.ticks[trick];
             int left = bars.placeAt(from, tick);
             int met = bars.placeAt(to, tick + ticks);
-            int speed = bars.placeAt(from, tick + 1) - left;
-            miss = Math.abs(left + ticks * speed - met);
-            swing = Math.abs(speed);
+            int pace = bars.placeAt(from, tick + 1) - left;
+            miss = Math.abs(left + ticks * pace - met);
+            swing = Math.abs(pace);
             gap = Math.abs(left - met);
             thrown = bars.catcher[from] ? 1 : 0;
             caught = bars.catcher[to] ? 1 : 0;
@@ -1189,23 +1192,18 @@ public final class FlyingBars {
         }
 
         boolean isNear() {
-            return tricks.isThere(trick) && miss <= tricks.arms[trick];
+            return miss <= arms;
         }
 
         boolean isGood(int done, int again) {
-            return isNear() && workOut(tricks.testBegin[trick], tricks.testEnd[trick], done, again) != 0;
+            return isNear() && workOut(testBegin, testEnd, done, again) != 0;
         }
 
         int worthBy(int done, int again) {
-            if (!tricks.isThere(trick)) {
-                return 0;
-            }
-            int sum = workOut(tricks.sumBegin[trick], tricks.testBegin[trick], done, again);
-            return Math.max(0, Math.min(MOST_WORTH, sum));
+            return Math.max(0, Math.min(MOST_WORTH, workOut(sumBegin, testBegin, done, again)));
         }
 
         private int workOut(int begin, int end, int done, int again) {
-            int[] code = tricks.code;
             int top = 0;
             for (int i = Math.max(0, begin); i < end && i < code.length; i++) {
                 int what = code[i];
@@ -1293,7 +1291,7 @@ public final class FlyingBars {
         private static final int SPOTS = MOST_BARS * ACT_TICKS;
         private static final int NO_FLIGHT_YET = 1 << MOST_TRICKS;
 
-        private final Flight probe;
+        private final Flight probe = new Flight();
         private final int[] first = new int[SPOTS + 1];
         private final int[] listed = new int[SPOTS * (MOST_BARS - 1) * MOST_TRICKS];
         private final boolean[] endsAt = new boolean[SPOTS];
@@ -1313,7 +1311,6 @@ public final class FlyingBars {
 
         Search(Rig rig) {
             this.rig = rig;
-            probe = new Flight(rig.tricks);
         }
 
         /** To be called whenever bars or tricks are others than before. */
@@ -1357,15 +1354,14 @@ public final class FlyingBars {
         /** Flights that can be good, by spot, in the order in which a row is the first. */
         private void listFlights() {
             int length = 0;
-            for (int bar = 0; bar < MOST_BARS; bar++) {
+            int bars = Math.min(MOST_BARS, rig.bars.count);
+            for (int bar = 0; bar < bars; bar++) {
                 for (int tick = 0; tick <= LAST_TICK; tick++) {
                     first[spotOf(bar, tick)] = length;
-                    if (bar < rig.bars.count) {
-                        length = listFrom(bar, tick, length);
-                    }
+                    length = listFrom(bar, tick, length);
                 }
             }
-            first[SPOTS] = length;
+            first[spotOf(bars, 0)] = length;
         }
 
         private int listFrom(int bar, int tick, int length) {
@@ -1421,7 +1417,7 @@ public final class FlyingBars {
          */
         void sweepBack(int board, boolean counting) {
             counts = counting;
-            for (int spot = 0; spot < SPOTS; spot++) {
+            for (int spot = 0; spot < SPOTS && spot < spotOf(rig.bars.count, 0); spot++) {
                 endsAt[spot] = rig.isBy(spot / ACT_TICKS, board, spot % ACT_TICKS);
             }
             for (int done = most; done >= 0; done--) {
@@ -1463,7 +1459,7 @@ public final class FlyingBars {
                     continue;
                 }
                 int fresh = worthOf(entry, spot, done, 0);
-                int again = mindsLast && done > 0 ? worthOf(entry, spot, done, 1) : fresh;
+                int again = done > 0 && rig.tricks.asksAgain[trick] ? worthOf(entry, spot, done, 1) : fresh;
                 if (again == fresh) {
                     shared = fresh == NONE ? shared : merge(shared, withFlight(rest, fresh));
                     continue;

@@ -1,0 +1,476 @@
+import java.util.ArrayList;
+import java.util.List;
+
+/** Promises 26 to 37: the bill and its images, by hand and against acts laid beside each other naively. */
+public final class BillTest {
+    private static final Checks CHECKS = new Checks();
+    private static final int NONE = FlyingBars.NONE;
+    private static final String STILL = "bar a at 9 every 4 from 0 reach 0;bar b at 9 every 4 from 0 reach 0;board p at 9;";
+
+    record Flight(int tick, int trick, int bar, int worth) {
+    }
+
+    record Act(int shift, int board, int tick, int bar, List<Flight> flights, int endTick, int endBoard) {
+        Act shifted(int by) {
+            return new Act(by, board, tick, bar, flights, endTick, endBoard);
+        }
+    }
+
+    private static int quarrels;
+    private static int failures;
+    private static int slacks;
+    private static int fills;
+
+    public static void main(String[] args) {
+        byHand();
+        inTheAir();
+        onBars();
+        steps();
+        slackByPeriods();
+        filling();
+        images();
+        for (int seed = 0; seed < 500; seed++) {
+            Model model = new Model(seed, 4, 3);
+            against(model, Checks.made(model.text), "seed " + seed);
+        }
+        CHECKS.due("the runs had quarrels", quarrels > 200, true);
+        CHECKS.due("the runs had failing acts", failures > 200, true);
+        CHECKS.due("the runs had slack", slacks > 200, true);
+        CHECKS.due("the runs had filling", fills > 200, true);
+        CHECKS.finish();
+    }
+
+    private static void byHand() {
+        FlyingBars x = Checks.made(STILL + "trick k ticks 3 arms 0 worth tick+5 when tick<90;");
+        CHECKS.due("book without a plan", x.book(0), NONE);
+        CHECKS.due("shift without a plan", x.shift(), NONE);
+        CHECKS.due("take", x.take(0, 2, 0), true);
+        CHECKS.due("book a plan that has not gone down", x.book(0), NONE);
+        CHECKS.due("shift of such", x.shift(), NONE);
+        CHECKS.due("fly", x.fly(5, 0, 1), true);
+        CHECKS.due("down", x.down(10, 0), true);
+        CHECKS.due("book(-1)", x.book(-1), NONE);
+        CHECKS.due("book(401)", x.book(401), NONE);
+        CHECKS.due("not good so late", x.book(85), NONE);
+        CHECKS.due("good so late", x.book(84), 1);
+        CHECKS.due("worth as told, not as it is so late", x.bill(0), 10);
+        CHECKS.due("the last tick", x.bill(1), 94);
+        CHECKS.due("shift", x.shift(), 0);
+        CHECKS.due("book", x.book(0), 2);
+        CHECKS.due("most flyers", x.bill(2), 1);
+        CHECKS.due("bill(-1)", x.bill(-1), NONE);
+        CHECKS.due("bill(3)", x.bill(3), NONE);
+        int[] at = {NONE, NONE, 0, 0, 0, 0, 10, 10, 1, 1, 1, NONE};
+        for (int t = 0; t < at.length; t++) {
+            CHECKS.due("at(1, " + t + ")", x.at(1, t), at[t]);
+            CHECKS.due("at(0, " + (84 + t) + ")", x.at(0, 84 + t), at[t]);
+        }
+        CHECKS.due("at(-1, 2)", x.at(-1, 2), NONE);
+        CHECKS.due("at(2, 2)", x.at(2, 2), NONE);
+        CHECKS.due("at(1, -1)", x.at(1, -1), NONE);
+        CHECKS.due("at(1, 501)", x.at(1, 501), NONE);
+        CHECKS.due("quarrel", x.quarrel(0, 1), NONE);
+        CHECKS.due("quarrel of one", x.quarrel(0, 0), NONE);
+        CHECKS.due("quarrel of none such", x.quarrel(0, 2), NONE);
+        CHECKS.due("quarrel of none such", x.quarrel(-1, 0), NONE);
+        // Bar a is held at 2 .. 5, bar b at 8 .. 10; two fly at one place at 6 and 7.
+        CHECKS.due("shift", x.shift(), 4);
+        CHECKS.due("book", x.book(3), 3);
+        CHECKS.due("quarrel at the tick at which one goes", x.quarrel(1, 2), 5);
+        CHECKS.due("quarrel either way", x.quarrel(2, 1), 5);
+        CHECKS.due("unbook", x.unbook(), 2);
+        CHECKS.due("book", x.book(4), 3);
+        CHECKS.due("no quarrel", x.quarrel(1, 2), NONE);
+        CHECKS.due("most flyers", x.bill(2), 2);
+        CHECKS.due("worth", x.bill(0), 30);
+        CHECKS.due("unbook", x.unbook(), 2);
+        CHECKS.due("unbook", x.unbook(), 1);
+        CHECKS.due("unbook", x.unbook(), 0);
+        CHECKS.due("unbook", x.unbook(), NONE);
+        CHECKS.due("bill(0)", x.bill(0) + x.bill(1) + x.bill(2), 0);
+        for (int i = 1; i <= 6; i++) {
+            CHECKS.due("book", x.book(0), i);
+        }
+        CHECKS.due("a 7th", x.book(50), NONE);
+        CHECKS.due("shift all the same", x.shift(), 4);
+        CHECKS.due("most flyers", x.bill(2), 6);
+    }
+
+    /** Four still bars in a row; two flyers between them meet or pass. */
+    private static void inTheAir() {
+        for (int apart = 0; apart <= 4; apart++) {
+            int other = 100 + apart;
+            FlyingBars x = Checks.made("bar a at 100 every 4 from 0 reach 0;bar b at 100 every 4 from 0 reach 0;"
+                    + "bar c at " + other + " every 4 from 0 reach 0;bar d at " + other + " every 4 from 0 reach 0;"
+                    + "board p at 102;trick k ticks 4 arms 0 worth 1 when all;trick one ticks 1 arms 0 worth 1 when all;");
+            CHECKS.due("first", x.take(0, 0, 0) && x.fly(2, 0, 1) && x.down(9, 0), true);
+            CHECKS.due("book", x.book(0), 1);
+            CHECKS.due("second", x.take(0, 1, 2) && x.fly(4, 0, 3) && x.down(9, 0), true);
+            CHECKS.due("book", x.book(0), 2);
+            CHECKS.due("in the air " + apart + " apart", x.quarrel(0, 1), apart <= 2 ? 5 : NONE);
+            CHECKS.due("shift " + apart, x.unbook() == 1 ? x.shift() : 9, apart <= 2 ? 1 : 0);
+            CHECKS.due("third", x.take(0, 1, 2) && x.fly(4, 1, 3) && x.down(9, 0), true);
+            CHECKS.due("a flight of one tick is never in the air", x.shift(), 0);
+        }
+    }
+
+    private static void onBars() {
+        FlyingBars x = Checks.made(STILL + "trick k ticks 2 arms 0 worth 1 when all;");
+        CHECKS.due("first", x.take(0, 0, 0) && x.fly(4, 0, 1) && x.down(8, 0), true);
+        CHECKS.due("book", x.book(10), 1);
+        CHECKS.due("up to the tick at which one comes", x.take(0, 10, 1) && x.down(15, 0) && x.book(0) == 2, true);
+        CHECKS.due("well", x.quarrel(0, 1), NONE);
+        CHECKS.due("from that tick on", x.take(0, 10, 1) && x.down(16, 0) && x.book(0) == 3, true);
+        CHECKS.due("quarrel", x.quarrel(0, 2), 16);
+        CHECKS.due("behind the tick at which it goes down", x.take(0, 19, 1) && x.down(20, 0) && x.book(0) == 4, true);
+        CHECKS.due("well", x.quarrel(0, 3), NONE);
+        CHECKS.due("at that tick", x.take(0, 18, 1) && x.down(20, 0) && x.book(0) == 5, true);
+        CHECKS.due("quarrel", x.quarrel(4, 0), 18);
+        CHECKS.due("hanging and flying do not meet", x.take(0, 15, 0) && x.down(18, 0) && x.book(0) == 6, true);
+        CHECKS.due("well", x.quarrel(0, 5), NONE);
+    }
+
+    private static void steps() {
+        FlyingBars x = Checks.made("bar a at 9 every 4 from 0 reach 0;bar b at 9 every 4 from 0 reach 0;board p at 9;board q at 9;"
+                + "bar c at 9 every 4 from 0 reach 0;trick k ticks 3 arms 4 worth 1 when all;");
+        CHECKS.due("plan", x.take(0, 0, 0) && x.fly(1, 0, 1) && x.fly(6, 0, 2) && x.down(12, 1), true);
+        CHECKS.due("book", x.book(5), 1);
+        CHECKS.due("fails", x.fails(0), NONE);
+        CHECKS.due("fails of none such", x.fails(1), NONE);
+        CHECKS.due("fails of none such", x.fails(-1), NONE);
+        CHECKS.due("change", x.change(0, 40, 35, 60), true);
+        CHECKS.due("taking fails", x.fails(0), 0);
+        CHECKS.due("change", x.change(0, 4, 0, 0), true);
+        CHECKS.due("change", x.change(1, 40, 31, 60), true);
+        CHECKS.due("the first flight fails", x.fails(0), 1);
+        // Bar b goes by its place at tick 9, where it is caught, and then on.
+        CHECKS.due("change", x.change(1, 40, 1, 60), true);
+        CHECKS.due("where", x.where(1, 9), 9);
+        CHECKS.due("the second flight fails", x.fails(0), 2);
+        CHECKS.due("change", x.change(1, 4, 0, 0), true);
+        // Bar c is caught at tick 14 and elsewhere at tick 17.
+        CHECKS.due("change", x.change(2, 40, 36, 60), true);
+        CHECKS.due("where", x.where(2, 14), 9);
+        CHECKS.due("going down fails", x.fails(0), 3);
+        CHECKS.due("change", x.change(2, 4, 0, 0), true);
+        CHECKS.due("fails", x.fails(0), NONE);
+    }
+
+    private static void slackByPeriods() {
+        FlyingBars x = Checks.made("bar a at 10 every 8 from 39 reach 10;board p at 20;");
+        CHECKS.due("plan", x.take(0, 1, 0) && x.down(1, 0) && x.book(0) == 1, true);
+        // At 20 it is for one tick of eight, at 15 for the one behind: 20 15 10 5 0 5 10 15.
+        CHECKS.due("grows", x.slack(0, 0, true), 2);
+        CHECKS.due("falls", x.slack(0, 0, false), 2);
+        CHECKS.due("the phase stays", x.where(0, 1), 20);
+        CHECKS.due("change", x.change(0, 8, 0, 10), true);
+        CHECKS.due("grows", x.slack(0, 0, true), 1);
+        CHECKS.due("falls, below 0", x.slack(0, 0, false), 3);
+        CHECKS.due("the phase stays", x.where(0, 0), 20);
+        CHECKS.due("no bar", x.slack(0, 1, true), NONE);
+        CHECKS.due("no bar", x.slack(0, -1, true), NONE);
+        CHECKS.due("no act", x.slack(1, 0, true), NONE);
+        CHECKS.due("change", x.change(0, 8, 3, 10), true);
+        CHECKS.due("it fails as it is", x.slack(0, 0, true), NONE);
+        CHECKS.due("change", x.change(0, 8, 3, 0), true);
+        CHECKS.due("it fails as it is", x.fails(0), 0);
+        x = Checks.made("bar a at 10 every 8 from 39 reach 2;board p at 10;");
+        CHECKS.due("plan", x.take(0, 1, 0) && x.down(1, 0) && x.book(0) == 1, true);
+        CHECKS.due("never", x.slack(0, 0, true), NONE);
+        x = Checks.made("bar a at 10 every 40 from 20 reach 60;board p at 0;bar b at 5 every 4 from 0 reach 0;");
+        CHECKS.due("where", x.where(0, 0), -50);
+        CHECKS.due("change", x.change(0, 40, 0, 7), true);
+        CHECKS.due("plan", x.take(0, 20, 0) && x.down(20, 0) && x.book(0) == 1, true);
+        CHECKS.due("another bar", x.slack(0, 1, false), NONE);
+    }
+
+    private static void filling() {
+        FlyingBars x = Checks.made(STILL + "trick k ticks 3 arms 0 worth 5 when all;");
+        CHECKS.due("take", x.take(0, 9, 0), true);
+        CHECKS.due("fill", x.fill(0, 0, 1, 80), 6);
+        CHECKS.due("the best is the plan", x.plan(0) * 100 + x.plan(3), 3);
+        // In the air at ticks 1 and 2: the next one may let go two ticks later.
+        CHECKS.due("shifts", x.bill(1), 5 * 2 + 3);
+        CHECKS.due("fill with 6", x.fill(0, 0, 1, 80), 0);
+        CHECKS.due("fill that can't be", x.fill(0, 1, 1, 80), NONE);
+        x = Checks.made("bar a at 9 every 4 from 0 reach 0;board p at 9;board q at 90;");
+        CHECKS.due("plan", x.take(0, 9, 0), true);
+        CHECKS.due("no best", x.fill(0, 1, 1, 80), 0);
+        CHECKS.due("the plan stays", x.plan(0), 9);
+        x = Checks.made("bar a at 90 every 40 from 0 reach 60;board p at 150;board q at 50;");
+        // From 150 down to 50 and back: an act of some 16 ticks, once in 40; ten of them go up to 400.
+        int came = x.fill(0, 1, 0, 80);
+        CHECKS.due("fill", came, 6);
+        CHECKS.due("once in 40", x.bill(1) - x.plan(3), 200);
+    }
+
+    private static void images() {
+        FlyingBars x = Checks.made(STILL + "board q at 11;trick k ticks 3 arms 0 worth 900 when all;");
+        CHECKS.due("octet ahead of any", x.octet(0), NONE);
+        CHECKS.due("plan", x.take(1, 2, 1) && x.fly(4, 0, 0) && x.fly(9, 0, 1) && x.down(70, 0), true);
+        CHECKS.due("book", x.book(300), 1);
+        CHECKS.due("plan", x.take(0, 80, 0) && x.down(80, 1) && x.book(0) == 2, true);
+        int[] want = {2, 1, 44, 1, 2, 1, 2, 4, 0, 0, 3, 132, 9, 0, 1, 3, 132, 70, 0, 0, 0, 0, 80, 0, 0, 80, 1};
+        byte[] sealed = Checks.sealed(want);
+        CHECKS.due("image", x.image(), sealed.length);
+        for (int k = 0; k < sealed.length; k++) {
+            CHECKS.due("octet(" + k + ")", x.octet(k), sealed[k] & 255);
+        }
+        CHECKS.due("octet behind", x.octet(sealed.length), NONE);
+        CHECKS.due("octet(-1)", x.octet(-1), NONE);
+        CHECKS.due("unbook", x.unbook() + x.unbook(), 1);
+        CHECKS.due("the latest image stays", x.octet(0), 2);
+        CHECKS.due("on", Checks.readImage(x, sealed), true);
+        CHECKS.due("the tape went", x.end(1), false);
+        CHECKS.due("acts", x.has(4), 2);
+        CHECKS.due("at", x.at(0, 305), 10);
+        CHECKS.due("worth", x.bill(0), 1800);
+        CHECKS.due("the plan stays", x.plan(0), 80);
+        wrongImages(x, want);
+    }
+
+    private static void wrongImages(FlyingBars x, int[] want) {
+        // k, what to put there instead, whether it is taken.
+        int[][] changes = {{0, 1, 0}, {0, 3, 0}, {0, 7, 0}, {1, 2, 0}, {2, 145, 0}, {2, 255, 0}, {3, 2, 0},
+            {3, 0, 1}, {4, 5, 0}, {4, 4, 1}, {5, 2, 0}, {5, 0, 0}, {6, 1, 0}, {6, 9, 0}, {7, 1, 0}, {7, 6, 1}, {7, 7, 0},
+            {8, 1, 0}, {9, 1, 0}, {9, 2, 0}, {10, 4, 0}, {11, 233, 0}, {11, 232, 1}, {12, 6, 0}, {12, 7, 1},
+            {12, 68, 0}, {12, 67, 1}, {13, 1, 0}, {14, 0, 0}, {15, 0, 1}, {17, 11, 0}, {17, 12, 1}, {17, 80, 1},
+            {17, 81, 0}, {18, 1, 1}, {18, 2, 0}, {22, 81, 0}, {25, 79, 0}, {26, 2, 0}, {26, 0, 1}};
+        for (int[] change : changes) {
+            int[] other = want.clone();
+            other[change[0]] = change[1];
+            boolean taken = change[2] == 1;
+            String call = "on with " + change[1] + " at " + change[0];
+            CHECKS.due(call, Checks.readImage(x, Checks.sealed(other)), taken);
+            byte[] left = Checks.imageOf(x);
+            CHECKS.due(call + " as written", left.length, want.length + 1);
+            CHECKS.due(call + " as read", left[change[0]] & 255, taken ? change[1] : want[change[0]]);
+            CHECKS.due("on", Checks.readImage(x, Checks.sealed(want)), true);
+        }
+        byte[] wrongEnd = Checks.sealed(want);
+        wrongEnd[want.length] ^= 1;
+        CHECKS.due("another last byte", Checks.readImage(x, wrongEnd), false);
+        byte[] longer = java.util.Arrays.copyOf(Checks.sealed(want), want.length + 2);
+        CHECKS.due("a byte more", Checks.readImage(x, longer), false);
+        CHECKS.due("a byte less", Checks.readImage(x, java.util.Arrays.copyOf(longer, want.length)), false);
+        CHECKS.due("no byte", Checks.readImage(x, new byte[0]), false);
+        CHECKS.due("one byte", Checks.readImage(x, new byte[] {0}), false);
+        CHECKS.due("acts stay", x.has(4), 2);
+        CHECKS.due("an empty one", Checks.readImage(x, Checks.sealed(0)), true);
+        CHECKS.due("no acts", x.has(4), 0);
+        int[] bad = {1, 0, 0, 1, 2, 1, 0, 3, 0};
+        CHECKS.due("good or not", x.change(1, 40, 0, 60) && Checks.readImage(x, Checks.sealed(bad)), true);
+        CHECKS.due("it fails", x.fails(0), 0);
+    }
+
+    /** What act does at a tick: a bar, or 100 and more for the place in the air, and the trick. */
+    private static int[] state(Model model, Act act, int tick) {
+        int bar = act.bar;
+        int came = act.tick + act.shift;
+        for (Flight f : act.flights) {
+            int goes = f.tick + act.shift;
+            if (came <= tick && tick <= goes) {
+                return new int[] {bar, 0, 0};
+            }
+            if (goes < tick && tick < goes + model.ticks[f.trick]) {
+                int place = model.where(bar, goes) + (tick - goes) * model.speed(bar, goes);
+                return new int[] {-1, place, f.trick};
+            }
+            bar = f.bar;
+            came = goes + model.ticks[f.trick];
+        }
+        return came <= tick && tick <= act.endTick + act.shift ? new int[] {bar, 0, 0} : null;
+    }
+
+    private static int quarrel(Model model, Act a, Act b) {
+        for (int t = 0; t <= 500; t++) {
+            int[] one = state(model, a, t);
+            int[] two = state(model, b, t);
+            if (one == null || two == null) {
+                continue;
+            }
+            boolean hang = one[0] >= 0 && one[0] == two[0];
+            boolean meet = one[0] < 0 && two[0] < 0 && Math.abs(one[1] - two[1]) <= 2;
+            if (hang || meet) {
+                return t;
+            }
+        }
+        return NONE;
+    }
+
+    private static int fails(Model model, Act act) {
+        if (!model.by(act.bar, act.board, act.tick + act.shift)) {
+            return 0;
+        }
+        int bar = act.bar;
+        int last = -1;
+        for (int i = 0; i < act.flights.size(); i++) {
+            Flight f = act.flights.get(i);
+            if (!model.good(bar, f.tick + act.shift, f.trick, f.bar, i, f.trick == last)) {
+                return i + 1;
+            }
+            bar = f.bar;
+            last = f.trick;
+        }
+        return model.by(bar, act.endBoard, act.endTick + act.shift) ? NONE : act.flights.size() + 1;
+    }
+
+    private static int leastShift(Model model, List<Act> bill, Act plan) {
+        for (int s = 0; s <= 400; s++) {
+            Act act = plan.shifted(s);
+            boolean well = fails(model, act) == NONE;
+            for (Act other : bill) {
+                well = well && quarrel(model, act, other) == NONE;
+            }
+            if (well) {
+                return s;
+            }
+        }
+        return NONE;
+    }
+
+    private static int slack(Model model, Act act, int bar, boolean grows) {
+        if (fails(model, act) != NONE) {
+            return NONE;
+        }
+        int phase = model.phase[bar];
+        int found = NONE;
+        for (int by = 1; by <= 39 && found == NONE; by++) {
+            int other = grows ? phase + by : phase - by;
+            while (other < 0) {
+                other += model.period[bar];
+            }
+            while (other > 39) {
+                other -= model.period[bar];
+            }
+            model.phase[bar] = other;
+            found = fails(model, act) == NONE ? NONE : by;
+        }
+        model.phase[bar] = phase;
+        return found;
+    }
+
+    private static Act planOf(FlyingBars x) {
+        List<Flight> flights = new ArrayList<>();
+        for (int i = 0; i < x.has(5); i++) {
+            flights.add(new Flight(x.step(i, 0), x.step(i, 1), x.step(i, 2), x.step(i, 3)));
+        }
+        return new Act(0, x.plan(2), x.plan(0), x.plan(1), flights, x.plan(3), x.plan(4));
+    }
+
+    private static void against(Model model, FlyingBars x, String seed) {
+        List<Act> bill = new ArrayList<>();
+        for (int round = 0; round < 8; round++) {
+            int from = model.random.nextInt(model.boards);
+            int to = model.random.nextInt(model.boards);
+            int by = 10 + model.random.nextInt(40);
+            x.best(from, to, model.random.nextInt(4), by);
+            if (x.plan(0) == NONE) {
+                continue;
+            }
+            Act plan = planOf(x);
+            int least = leastShift(model, bill, plan);
+            CHECKS.due(seed + " shift", x.shift(), least);
+            int shift = least != NONE && model.random.nextBoolean() ? least : model.random.nextInt(401);
+            for (int s = 0; bill.size() > 1 && model.random.nextInt(3) > 0 && s < 40; s++) {
+                shift = fails(model, plan.shifted(s)) == NONE ? s : shift;
+            }
+            boolean can = bill.size() < 6 && fails(model, plan.shifted(shift)) == NONE;
+            if (can) {
+                bill.add(plan.shifted(shift));
+            }
+            CHECKS.due(seed + " book", x.book(shift), can ? bill.size() : NONE);
+            if (bill.size() > 3 && model.random.nextInt(3) == 0) {
+                bill.remove(bill.size() - 1);
+                CHECKS.due(seed + " unbook", x.unbook(), bill.size());
+            }
+            look(model, x, bill, seed);
+            sway(model, x);
+            if (model.random.nextInt(3) == 0) {
+                fill(model, x, bill, seed, from, to);
+            }
+            reread(x, seed);
+        }
+    }
+
+    private static void look(Model model, FlyingBars x, List<Act> bill, String seed) {
+        int worth = 0;
+        int last = 0;
+        int most = 0;
+        for (int i = 0; i < bill.size(); i++) {
+            Act act = bill.get(i);
+            for (Flight f : act.flights) {
+                worth += f.worth;
+            }
+            last = Math.max(last, act.endTick + act.shift);
+            for (int j = 0; j < bill.size(); j++) {
+                int first = i == j ? NONE : quarrel(model, act, bill.get(j));
+                quarrels += first == NONE ? 0 : 1;
+                CHECKS.due(seed + " quarrel", x.quarrel(i, j), first);
+            }
+            CHECKS.due(seed + " fails", x.fails(i), fails(model, act));
+            failures += fails(model, act) == NONE ? 0 : 1;
+            for (int bar = 0; bar < model.bars; bar++) {
+                boolean grows = model.random.nextBoolean();
+                int slack = slack(model, act, bar, grows);
+                slacks += slack > 1 ? 1 : 0;
+                CHECKS.due(seed + " slack", x.slack(i, bar, grows), slack);
+            }
+            for (int k = 0; k < 10; k++) {
+                int tick = act.tick + act.shift - 2 + model.random.nextInt(25);
+                int[] state = tick < 0 || tick > 500 ? null : state(model, act, tick);
+                CHECKS.due(seed + " at", x.at(i, tick), state == null ? NONE : state[0] >= 0 ? state[0] : 10 + state[2]);
+            }
+        }
+        for (int t = 0; t <= 500; t++) {
+            int there = 0;
+            for (Act act : bill) {
+                there += state(model, act, t) == null ? 0 : 1;
+            }
+            most = Math.max(most, there);
+        }
+        CHECKS.due(seed + " bill(0)", x.bill(0), worth);
+        CHECKS.due(seed + " bill(1)", x.bill(1), last);
+        CHECKS.due(seed + " bill(2)", x.bill(2), most);
+    }
+
+    private static void sway(Model model, FlyingBars x) {
+        int bar = model.random.nextInt(model.bars);
+        if (model.random.nextInt(3) == 0) {
+            model.phase[bar] = model.random.nextInt(40);
+            model.reach[bar] = model.random.nextInt(30);
+            x.change(bar, model.period[bar], model.phase[bar], model.reach[bar]);
+        }
+    }
+
+    private static void fill(Model model, FlyingBars x, List<Act> bill, String seed, int from, int to) {
+        int before = bill.size();
+        Model.Found best = model.best(from, to, 2, 30);
+        int came = x.fill(from, to, 2, 30);
+        if (best != null && before < 6) {
+            Act plan = planOf(x);
+            CHECKS.due(seed + " the best is the plan", x.plan(5) * 100 + x.plan(3), best.worth() * 100 + best.end());
+            int shift = 0;
+            while (bill.size() < 6 && shift != NONE) {
+                shift = leastShift(model, bill, plan);
+                if (shift != NONE) {
+                    bill.add(plan.shifted(shift));
+                }
+            }
+        }
+        fills += came > 0 ? 1 : 0;
+        CHECKS.due(seed + " fill", came, bill.size() - before);
+        look(model, x, bill, seed);
+    }
+
+    private static void reread(FlyingBars x, String seed) {
+        byte[] image = Checks.imageOf(x);
+        int acts = x.has(4);
+        while (x.unbook() != NONE) {
+            continue;
+        }
+        CHECKS.due(seed + " on", Checks.readImage(x, image), true);
+        CHECKS.due(seed + " acts", x.has(4), acts);
+        CHECKS.due(seed + " the same image", java.util.Arrays.equals(image, Checks.imageOf(x)), true);
+    }
+}
