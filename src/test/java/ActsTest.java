@@ -18,6 +18,8 @@ public final class ActsTest {
         }
         CHECKS.due("acts were looked at", acts > 20000, true);
         told();
+        lastTick();
+        fullRig();
         refused();
         CHECKS.finish();
     }
@@ -159,6 +161,57 @@ public final class ActsTest {
         CHECKS.due("but three by 79", x.best(0, 0, 8, 79), 3);
         CHECKS.due("soonest with four", x.soonest(0, 0, 4, 8), 80);
         CHECKS.due("none with five", x.soonest(0, 0, 5, 8), FlyingBars.NONE);
+    }
+
+    private static void lastTick() {
+        FlyingBars x = Checks.made("bar a at 10 every 4 from 0 reach 0;bar b at 10 every 4 from 0 reach 0;board p at 10;"
+                + "trick t ticks 1 arms 0 worth 5 when tick>78;");
+        CHECKS.due("a flight at tick 79", x.best(0, 0, 8, 80), 5);
+        CHECKS.due("it comes down at 80", x.plan(3) * 100 + x.step(0, 0), 8079);
+        CHECKS.due("soonest", x.soonest(0, 0, 1, 8), 80);
+        CHECKS.due("none by 79", x.best(0, 0, 8, 79), 0);
+        CHECKS.due("reached by 80 from a board by all bars", x.reached(0, 8, 80), 3);
+    }
+
+    private static String stillBars() {
+        StringBuilder text = new StringBuilder("board p at 9;");
+        for (int i = 0; i < 8; i++) {
+            text.append("bar ").append((char) ('a' + i)).append(" at 9 every 4 from 0 reach 0;");
+        }
+        return text.toString();
+    }
+
+    /** Eight bars side by side and eight tricks, of which none may follow itself. */
+    private static void fullRig() {
+        StringBuilder text = new StringBuilder(stillBars());
+        for (int i = 0; i < 8; i++) {
+            text.append("trick t").append((char) ('a' + i)).append(" ticks 1 arms 0 worth ").append(i + 1)
+                    .append(" when again=0;");
+        }
+        FlyingBars x = Checks.made(text.toString());
+        CHECKS.due("the two best tricks by turns", x.best(0, 0, 8, 80), 4 * 8 + 4 * 7);
+        CHECKS.due("soonest", x.plan(3), 8);
+        CHECKS.due("flights", x.has(5), 8);
+        for (int i = 0; i < 8; i++) {
+            CHECKS.due("tick", x.step(i, 0), i);
+            CHECKS.due("trick", x.step(i, 1), 6 + i % 2);
+            CHECKS.due("bar", x.step(i, 2), 1 - i % 2);
+        }
+        CHECKS.due("without the best trick", x.barred(0, 0, 8, 80, true, 7), 4 * 7 + 4 * 6);
+        CHECKS.due("without a bar", x.barred(0, 0, 8, 80, false, 7), 60);
+        CHECKS.due("ways", x.ways(0, 0, 1, 1), 8 * (2 + 7 * 8 + 1));
+        // 8 * 7 * 8 first flights, 7 * 7 second ones each; an act of two takes ticks 0, 1 and ends at 2.
+        CHECKS.due("ways with two", x.ways(0, 0, 2, 2) - x.ways(0, 0, 1, 2), 8 * 7 * 8 * 7 * 7);
+        CHECKS.due("reached", x.reached(0, 0, 0), 255);
+        CHECKS.due("soonest", x.soonest(0, 0, 8, 8), 8);
+        text = new StringBuilder(stillBars());
+        for (int i = 0; i < 8; i++) {
+            text.append("trick t").append((char) ('a' + i)).append(" ticks 1 arms 0 worth 1 when again=0 and ")
+                    .append(i).append("=7;");
+        }
+        x = Checks.made(text.toString());
+        CHECKS.due("the last trick alone", x.soonest(0, 0, 1, 8), 1);
+        CHECKS.due("not twice", x.soonest(0, 0, 2, 8), FlyingBars.NONE);
     }
 
     private static void refused() {

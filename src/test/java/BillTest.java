@@ -27,6 +27,8 @@ public final class BillTest {
         onBars();
         steps();
         slackByPeriods();
+        lastShift();
+        eightFlights();
         filling();
         images();
         for (int seed = 0; seed < 500; seed++) {
@@ -177,11 +179,53 @@ public final class BillTest {
         x = Checks.made("bar a at 10 every 8 from 39 reach 2;board p at 10;");
         CHECKS.due("plan", x.take(0, 1, 0) && x.down(1, 0) && x.book(0) == 1, true);
         CHECKS.due("never", x.slack(0, 0, true), NONE);
-        x = Checks.made("bar a at 10 every 40 from 20 reach 60;board p at 0;bar b at 5 every 4 from 0 reach 0;");
-        CHECKS.due("where", x.where(0, 0), -50);
-        CHECKS.due("change", x.change(0, 40, 0, 7), true);
+        // At 5 it is for one tick of forty, else within 5 of the board.
+        x = Checks.made("bar a at 10 every 40 from 1 reach 5;board p at 11;bar b at 5 every 4 from 0 reach 0;");
+        CHECKS.due("where", x.where(0, 19), 5);
         CHECKS.due("plan", x.take(0, 20, 0) && x.down(20, 0) && x.book(0) == 1, true);
+        CHECKS.due("grows by 39", x.slack(0, 0, true), 39);
+        CHECKS.due("falls by 1", x.slack(0, 0, false), 1);
         CHECKS.due("another bar", x.slack(0, 1, false), NONE);
+    }
+
+    private static void lastShift() {
+        FlyingBars x = Checks.made(STILL + "trick k ticks 2 arms 0 worth 1 when tick=3 or tick=403;");
+        CHECKS.due("plan", x.take(0, 0, 0) && x.fly(3, 0, 1) && x.down(5, 0) && x.book(0) == 1, true);
+        CHECKS.due("shift", x.shift(), 400);
+        CHECKS.due("book", x.book(400), 2);
+        CHECKS.due("the last tick", x.bill(1), 405);
+        CHECKS.due("at", x.at(1, 404), 10);
+        CHECKS.due("none any more", x.shift(), NONE);
+        CHECKS.due("fill finds none", x.fill(0, 0, 1, 5), 0);
+    }
+
+    private static void eightFlights() {
+        FlyingBars x = Checks.made(STILL + "trick k ticks 1 arms 0 worth 1000 when all;");
+        CHECKS.due("take", x.take(0, 0, 0), true);
+        for (int i = 0; i < 8; i++) {
+            CHECKS.due("fly", x.fly(i, 0, 1 - i % 2), true);
+        }
+        CHECKS.due("down", x.down(80, 0) && x.book(0) == 1, true);
+        CHECKS.due("at the last bar", x.at(0, 80), 0);
+        CHECKS.due("plan", x.take(0, 70, 0) && x.down(80, 0) && x.book(0) == 2, true);
+        CHECKS.due("quarrel on the last bar", x.quarrel(0, 1), 70);
+        CHECKS.due("plan", x.take(0, 70, 1) && x.down(80, 0) && x.book(0) == 3, true);
+        CHECKS.due("none on the other", x.quarrel(0, 2), NONE);
+        CHECKS.due("worth", x.bill(0), 8000);
+        while (x.unbook() > 1) {
+            continue;
+        }
+        CHECKS.due("take", x.take(0, 0, 0), true);
+        for (int i = 0; i < 8; i++) {
+            CHECKS.due("fly", x.fly(i, 0, 1 - i % 2), true);
+        }
+        CHECKS.due("down", x.down(80, 0), true);
+        for (int i = 2; i <= 6; i++) {
+            CHECKS.due("book", x.book(0), i);
+        }
+        CHECKS.due("the longest image", x.image(), 2 + 6 * (8 + 5 * 8));
+        CHECKS.due("on", Checks.readImage(x, Checks.imageOf(x)), true);
+        CHECKS.due("worth", x.bill(0), 48000);
     }
 
     private static void filling() {
@@ -255,6 +299,9 @@ public final class BillTest {
         CHECKS.due("a byte less", Checks.readImage(x, java.util.Arrays.copyOf(longer, want.length)), false);
         CHECKS.due("no byte", Checks.readImage(x, new byte[0]), false);
         CHECKS.due("one byte", Checks.readImage(x, new byte[] {0}), false);
+        CHECKS.due("acts stay", x.has(4), 2);
+        CHECKS.due("an act cut off", Checks.readImage(x, Checks.sealed(1, 0, 0, 9, 0, 0, 0)), false);
+        CHECKS.due("a flight cut off", Checks.readImage(x, Checks.sealed(1, 0, 0, 0, 0, 0, 1, 0, 9, 1, 0, 0)), false);
         CHECKS.due("acts stay", x.has(4), 2);
         CHECKS.due("an empty one", Checks.readImage(x, Checks.sealed(0)), true);
         CHECKS.due("no acts", x.has(4), 0);

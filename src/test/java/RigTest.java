@@ -14,6 +14,7 @@ public final class RigTest {
         names();
         nesting();
         limits();
+        fullTape();
         whatStays();
         letters();
         sumsMean();
@@ -241,6 +242,24 @@ public final class RigTest {
         FlyingBars x = Checks.made("board i at 1;board j at 1;board k at 1;board l at 1;" + tricks);
         CHECKS.due("boards", x.has(1), 4);
         CHECKS.due("tricks", x.has(2), 8);
+    }
+
+    /** Texts of 900 bytes whose last ones are a word, a number, a sign. */
+    private static void fullTape() {
+        well(" ".repeat(900 - BAR.length()) + BAR, 1);
+        faulty(1, " ".repeat(900 - 15) + "bar a at 5 ^ever");
+        faulty(1, " ".repeat(900 - 9) + "bar a at ^");
+        faulty(1, " ".repeat(900 - 10) + "bar a at 5^");
+        faulty(2, " ".repeat(900 - 12) + "bar a at ^999");
+        faulty(1, " ".repeat(900 - 5) + "bar a^");
+        StringBuilder sum = new StringBuilder("1");
+        while (TRICK.length() + sum.length() + 2 < 880) {
+            sum.append("+1");
+        }
+        well(TRICK + sum + " when all;", 1);
+        FlyingBars x = Checks.made("bar a at 9 every 4 from 0 reach 0;bar b at 9 every 4 from 0 reach 0;"
+                + "trick k ticks 1 arms 1 worth 1" + "+1".repeat(390) + " when all;");
+        CHECKS.due("a long sum", x.flight(0, 0, 0, 1, 0, false, 2), 391);
     }
 
     private static void whatStays() {

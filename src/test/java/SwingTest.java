@@ -156,6 +156,10 @@ public final class SwingTest {
         CHECKS.due("the first of like ones", x.nearest(0, 0, 1, false), 0);
         x = Checks.made(bar("a", 0, 8, 0, 0) + "trick t ticks 3 arms 40 worth 1 when all;");
         CHECKS.due("idle with one bar", x.idle(0), 1);
+        x = Checks.made(bar("a", 0, 8, 0, 0) + bar("b", 0, 8, 0, 0) + "trick t ticks 3 arms 40 worth 1 when tick>118;"
+                + "trick u ticks 3 arms 40 worth 1 when tick>119;");
+        CHECKS.due("not idle at 119", x.idle(0), 0);
+        CHECKS.due("idle by 119", x.idle(1), 1);
         x = Checks.made(far + "trick t ticks 3 arms 40 worth 1 when done>0 or again=1;");
         CHECKS.due("done and again are 0", x.change(1, 8, 0, 60) && x.idle(0) == 1, true);
     }
