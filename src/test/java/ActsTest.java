@@ -9,12 +9,12 @@ public final class ActsTest {
     public static void main(String[] args) {
         for (int seed = 0; seed < 700; seed++) {
             Model model = new Model(seed, 4, 3);
-            FlyingBars x = Checks.made(model.text);
+            Watched x = Watched.made(model.text);
             small(model, x, seed);
         }
         for (int seed = 1000; seed < 1060; seed++) {
             Model model = new Model(seed, seed % 2 == 0 ? 4 : 6, 4);
-            large(model, Checks.made(model.text), seed);
+            large(model, Watched.made(model.text), seed);
         }
         CHECKS.due("acts were looked at", acts > 20000, true);
         told();
@@ -24,7 +24,7 @@ public final class ActsTest {
         CHECKS.finish();
     }
 
-    private static void small(Model model, FlyingBars x, int seed) {
+    private static void small(Model model, Watched x, int seed) {
         for (int i = 0; i < 4; i++) {
             int from = model.random.nextInt(model.boards);
             int to = model.random.nextInt(model.boards);
@@ -44,7 +44,7 @@ public final class ActsTest {
         }
     }
 
-    private static void large(Model model, FlyingBars x, int seed) {
+    private static void large(Model model, Watched x, int seed) {
         int from = model.random.nextInt(model.boards);
         int to = model.random.nextInt(model.boards);
         String call = "seed " + seed + " from " + from + " to " + to;
@@ -53,7 +53,7 @@ public final class ActsTest {
         isBest(call, model, x, x.best(from, to, 8, 80), from, to, model.best(from, to, 8, 80));
     }
 
-    private static void isBest(String call, Model model, FlyingBars x, int got, int from, int to, Model.Found best) {
+    private static void isBest(String call, Model model, Watched x, int got, int from, int to, Model.Found best) {
         CHECKS.due(call + " best", got, best == null ? FlyingBars.NONE : best.worth());
         if (best == null || got == FlyingBars.NONE) {
             return;
@@ -76,7 +76,7 @@ public final class ActsTest {
         }
     }
 
-    private static void barred(String call, Model model, FlyingBars x, int from, int to, int n, int by) {
+    private static void barred(String call, Model model, Watched x, int from, int to, int n, int by) {
         int plan = x.plan(3) * 100 + x.has(5);
         model.noBar = model.random.nextInt(model.bars);
         Model.Found best = model.best(from, to, n, by);
@@ -93,7 +93,7 @@ public final class ActsTest {
         CHECKS.due(call + " the plan stays", x.plan(3) * 100 + x.has(5), plan);
     }
 
-    private static void soonest(String call, Model model, FlyingBars x, int from, int to, int n) {
+    private static void soonest(String call, Model model, Watched x, int from, int to, int n) {
         List<Model.Found> all = model.all(from, to, Math.min(n, 2), 80, 20000);
         if (all == null) {
             return;
@@ -111,7 +111,7 @@ public final class ActsTest {
         CHECKS.due(call + " soonest with m above n", x.soonest(from, to, most + 1, most), FlyingBars.NONE);
     }
 
-    private static void reached(String call, Model model, FlyingBars x, int from, int n, int by) {
+    private static void reached(String call, Model model, Watched x, int from, int n, int by) {
         boolean[][] came = new boolean[model.bars][by + 1];
         for (int t = 0; t <= by; t++) {
             for (int b = 0; b < model.bars; b++) {
@@ -145,7 +145,7 @@ public final class ActsTest {
     /** Two bars that stand still side by side: every flight is good, so all can be counted by hand. */
     private static void told() {
         String still = "bar a at 10 every 4 from 0 reach 0;bar b at 10 every 4 from 0 reach 0;board p at 15;board q at 16;";
-        FlyingBars x = Checks.made(still + "trick t ticks 1 arms 0 worth 5 * done - 3 * again when all;");
+        Watched x = Watched.made(still + "trick t ticks 1 arms 0 worth 5 * done - 3 * again when all;");
         CHECKS.due("BY at 5 apart", x.ways(0, 0, 0, 0), 2);
         CHECKS.due("not BY at 6 apart", x.ways(1, 1, 0, 80), 0);
         CHECKS.due("ways is told up to 10 to the 9", x.ways(0, 0, 8, 80), 1000000000);
@@ -156,7 +156,7 @@ public final class ActsTest {
         CHECKS.due("fewest flights of like ones", x.best(0, 0, 1, 80) * 100 + x.has(5), 0);
         CHECKS.due("one trick alone, again", x.best(0, 0, 2, 2), 2);
         CHECKS.due("reached at once", x.reached(0, 0, 0), 3);
-        x = Checks.made(still + "trick t ticks 20 arms 40 worth 1 when all;");
+        x = Watched.made(still + "trick t ticks 20 arms 40 worth 1 when all;");
         CHECKS.due("four flights of 20 ticks come down at 80", x.best(0, 0, 8, 80), 4);
         CHECKS.due("but three by 79", x.best(0, 0, 8, 79), 3);
         CHECKS.due("soonest with four", x.soonest(0, 0, 4, 8), 80);
@@ -164,7 +164,7 @@ public final class ActsTest {
     }
 
     private static void lastTick() {
-        FlyingBars x = Checks.made("bar a at 10 every 4 from 0 reach 0;bar b at 10 every 4 from 0 reach 0;board p at 10;"
+        Watched x = Watched.made("bar a at 10 every 4 from 0 reach 0;bar b at 10 every 4 from 0 reach 0;board p at 10;"
                 + "trick t ticks 1 arms 0 worth 5 when tick>78;");
         CHECKS.due("a flight at tick 79", x.best(0, 0, 8, 80), 5);
         CHECKS.due("it comes down at 80", x.plan(3) * 100 + x.step(0, 0), 8079);
@@ -188,7 +188,7 @@ public final class ActsTest {
             text.append("trick t").append((char) ('a' + i)).append(" ticks 1 arms 0 worth ").append(i + 1)
                     .append(" when again=0;");
         }
-        FlyingBars x = Checks.made(text.toString());
+        Watched x = Watched.made(text.toString());
         CHECKS.due("the two best tricks by turns", x.best(0, 0, 8, 80), 4 * 8 + 4 * 7);
         CHECKS.due("soonest", x.plan(3), 8);
         CHECKS.due("flights", x.has(5), 8);
@@ -209,13 +209,13 @@ public final class ActsTest {
             text.append("trick t").append((char) ('a' + i)).append(" ticks 1 arms 0 worth 1 when again=0 and ")
                     .append(i).append("=7;");
         }
-        x = Checks.made(text.toString());
+        x = Watched.made(text.toString());
         CHECKS.due("the last trick alone", x.soonest(0, 0, 1, 8), 1);
         CHECKS.due("not twice", x.soonest(0, 0, 2, 8), FlyingBars.NONE);
     }
 
     private static void refused() {
-        FlyingBars x = Checks.made("bar a at 10 every 4 from 0 reach 0;board p at 10;trick t ticks 1 arms 0 worth 1 when all;");
+        Watched x = Watched.made("bar a at 10 every 4 from 0 reach 0;board p at 10;trick t ticks 1 arms 0 worth 1 when all;");
         int[][] wrong = {{1, 0, 0, 0}, {-1, 0, 0, 0}, {0, 1, 0, 0}, {0, -1, 0, 0}, {0, 0, 9, 0}, {0, 0, -1, 0},
             {0, 0, 0, 81}, {0, 0, 0, -1}};
         for (int[] w : wrong) {

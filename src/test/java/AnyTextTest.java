@@ -15,7 +15,7 @@ public final class AnyTextTest {
     public static void main(String[] args) {
         Random random = new Random(7);
         for (int i = 0; i < 24000; i += 9) {
-            FlyingBars x = new FlyingBars();
+            Watched x = new Watched();
             for (int k = 0; k < 9; k++) {
                 String text = anyText(random);
                 compare(x, text.substring(0, Math.min(text.length(), 900)));
@@ -80,11 +80,11 @@ public final class AnyTextTest {
         return String.join("", tokens);
     }
 
-    private static void compare(FlyingBars x, String text) {
+    private static void compare(Watched x, String text) {
         TextModel model = new TextModel(text);
         SEEN[model.fault]++;
         int bars = x.has(0);
-        CHECKS.due("rig of " + text, Checks.rig(x, text), model.fault == 0 ? model.statements : FlyingBars.NONE);
+        CHECKS.due("rig of " + text, x.rig(text), model.fault == 0 ? model.statements : FlyingBars.NONE);
         CHECKS.due("fault(0) of " + text, x.fault(0), model.fault);
         CHECKS.due("fault(1) of " + text, x.fault(1), model.place);
         CHECKS.due("bars of " + text, x.has(0), model.fault == 0 ? model.bars.size() : bars);

@@ -33,7 +33,7 @@ public final class BillTest {
         images();
         for (int seed = 0; seed < 500; seed++) {
             Model model = new Model(seed, 4, 3);
-            against(model, Checks.made(model.text), "seed " + seed);
+            against(model, "seed " + seed);
         }
         CHECKS.due("the runs had quarrels", quarrels > 200, true);
         CHECKS.due("the runs had failing acts", failures > 200, true);
@@ -43,7 +43,7 @@ public final class BillTest {
     }
 
     private static void byHand() {
-        FlyingBars x = Checks.made(STILL + "trick k ticks 3 arms 0 worth tick+5 when tick<90;");
+        Watched x = Watched.made(STILL + "trick k ticks 3 arms 0 worth tick+5 when tick<90;");
         CHECKS.due("book without a plan", x.book(0), NONE);
         CHECKS.due("shift without a plan", x.shift(), NONE);
         CHECKS.due("take", x.take(0, 2, 0), true);
@@ -102,7 +102,7 @@ public final class BillTest {
     private static void inTheAir() {
         for (int apart = 0; apart <= 4; apart++) {
             int other = 100 + apart;
-            FlyingBars x = Checks.made("bar a at 100 every 4 from 0 reach 0;bar b at 100 every 4 from 0 reach 0;"
+            Watched x = Watched.made("bar a at 100 every 4 from 0 reach 0;bar b at 100 every 4 from 0 reach 0;"
                     + "bar c at " + other + " every 4 from 0 reach 0;bar d at " + other + " every 4 from 0 reach 0;"
                     + "board p at 102;trick k ticks 4 arms 0 worth 1 when all;trick one ticks 1 arms 0 worth 1 when all;");
             CHECKS.due("first", x.take(0, 0, 0) && x.fly(2, 0, 1) && x.down(9, 0), true);
@@ -117,7 +117,7 @@ public final class BillTest {
     }
 
     private static void onBars() {
-        FlyingBars x = Checks.made(STILL + "trick k ticks 2 arms 0 worth 1 when all;");
+        Watched x = Watched.made(STILL + "trick k ticks 2 arms 0 worth 1 when all;");
         CHECKS.due("first", x.take(0, 0, 0) && x.fly(4, 0, 1) && x.down(8, 0), true);
         CHECKS.due("book", x.book(10), 1);
         CHECKS.due("up to the tick at which one comes", x.take(0, 10, 1) && x.down(15, 0) && x.book(0) == 2, true);
@@ -133,7 +133,7 @@ public final class BillTest {
     }
 
     private static void steps() {
-        FlyingBars x = Checks.made("bar a at 9 every 4 from 0 reach 0;bar b at 9 every 4 from 0 reach 0;board p at 9;board q at 9;"
+        Watched x = Watched.made("bar a at 9 every 4 from 0 reach 0;bar b at 9 every 4 from 0 reach 0;board p at 9;board q at 9;"
                 + "bar c at 9 every 4 from 0 reach 0;trick k ticks 3 arms 4 worth 1 when all;");
         CHECKS.due("plan", x.take(0, 0, 0) && x.fly(1, 0, 1) && x.fly(6, 0, 2) && x.down(12, 1), true);
         CHECKS.due("book", x.book(5), 1);
@@ -159,7 +159,7 @@ public final class BillTest {
     }
 
     private static void slackByPeriods() {
-        FlyingBars x = Checks.made("bar a at 10 every 8 from 39 reach 10;board p at 20;");
+        Watched x = Watched.made("bar a at 10 every 8 from 39 reach 10;board p at 20;");
         CHECKS.due("plan", x.take(0, 1, 0) && x.down(1, 0) && x.book(0) == 1, true);
         // At 20 it is for one tick of eight, at 15 for the one behind: 20 15 10 5 0 5 10 15.
         CHECKS.due("grows", x.slack(0, 0, true), 2);
@@ -176,11 +176,11 @@ public final class BillTest {
         CHECKS.due("it fails as it is", x.slack(0, 0, true), NONE);
         CHECKS.due("change", x.change(0, 8, 3, 0), true);
         CHECKS.due("it fails as it is", x.fails(0), 0);
-        x = Checks.made("bar a at 10 every 8 from 39 reach 2;board p at 10;");
+        x = Watched.made("bar a at 10 every 8 from 39 reach 2;board p at 10;");
         CHECKS.due("plan", x.take(0, 1, 0) && x.down(1, 0) && x.book(0) == 1, true);
         CHECKS.due("never", x.slack(0, 0, true), NONE);
         // At 5 it is for one tick of forty, else within 5 of the board.
-        x = Checks.made("bar a at 10 every 40 from 1 reach 5;board p at 11;bar b at 5 every 4 from 0 reach 0;");
+        x = Watched.made("bar a at 10 every 40 from 1 reach 5;board p at 11;bar b at 5 every 4 from 0 reach 0;");
         CHECKS.due("where", x.where(0, 19), 5);
         CHECKS.due("plan", x.take(0, 20, 0) && x.down(20, 0) && x.book(0) == 1, true);
         CHECKS.due("grows by 39", x.slack(0, 0, true), 39);
@@ -189,7 +189,7 @@ public final class BillTest {
     }
 
     private static void lastShift() {
-        FlyingBars x = Checks.made(STILL + "trick k ticks 2 arms 0 worth 1 when tick=3 or tick=403;");
+        Watched x = Watched.made(STILL + "trick k ticks 2 arms 0 worth 1 when tick=3 or tick=403;");
         CHECKS.due("plan", x.take(0, 0, 0) && x.fly(3, 0, 1) && x.down(5, 0) && x.book(0) == 1, true);
         CHECKS.due("shift", x.shift(), 400);
         CHECKS.due("book", x.book(400), 2);
@@ -200,7 +200,7 @@ public final class BillTest {
     }
 
     private static void eightFlights() {
-        FlyingBars x = Checks.made(STILL + "trick k ticks 1 arms 0 worth 1000 when all;");
+        Watched x = Watched.made(STILL + "trick k ticks 1 arms 0 worth 1000 when all;");
         CHECKS.due("take", x.take(0, 0, 0), true);
         for (int i = 0; i < 8; i++) {
             CHECKS.due("fly", x.fly(i, 0, 1 - i % 2), true);
@@ -224,12 +224,12 @@ public final class BillTest {
             CHECKS.due("book", x.book(0), i);
         }
         CHECKS.due("the longest image", x.image(), 2 + 6 * (8 + 5 * 8));
-        CHECKS.due("on", Checks.readImage(x, Checks.imageOf(x)), true);
+        CHECKS.due("on", x.on(x.imageBytes()), true);
         CHECKS.due("worth", x.bill(0), 48000);
     }
 
     private static void filling() {
-        FlyingBars x = Checks.made(STILL + "trick k ticks 3 arms 0 worth 5 when all;");
+        Watched x = Watched.made(STILL + "trick k ticks 3 arms 0 worth 5 when all;");
         CHECKS.due("take", x.take(0, 9, 0), true);
         CHECKS.due("fill", x.fill(0, 0, 1, 80), 6);
         CHECKS.due("the best is the plan", x.plan(0) * 100 + x.plan(3), 3);
@@ -237,19 +237,21 @@ public final class BillTest {
         CHECKS.due("shifts", x.bill(1), 5 * 2 + 3);
         CHECKS.due("fill with 6", x.fill(0, 0, 1, 80), 0);
         CHECKS.due("fill that can't be", x.fill(0, 1, 1, 80), NONE);
-        x = Checks.made("bar a at 9 every 4 from 0 reach 0;board p at 9;board q at 90;");
+        x = Watched.made("bar a at 9 every 4 from 0 reach 0;board p at 9;board q at 90;");
         CHECKS.due("plan", x.take(0, 9, 0), true);
         CHECKS.due("no best", x.fill(0, 1, 1, 80), 0);
         CHECKS.due("the plan stays", x.plan(0), 9);
-        x = Checks.made("bar a at 90 every 40 from 0 reach 60;board p at 150;board q at 50;");
+        x = Watched.made("bar a at 90 every 40 from 0 reach 60;board p at 150;board q at 50;");
         // From 150 down to 50 and back: an act of some 16 ticks, once in 40; ten of them go up to 400.
         int came = x.fill(0, 1, 0, 80);
         CHECKS.due("fill", came, 6);
         CHECKS.due("once in 40", x.bill(1) - x.plan(3), 200);
     }
 
+    private static final String IMAGE_RIG = STILL + "board q at 11;trick k ticks 3 arms 0 worth 900 when all;";
+
     private static void images() {
-        FlyingBars x = Checks.made(STILL + "board q at 11;trick k ticks 3 arms 0 worth 900 when all;");
+        Watched x = Watched.made(IMAGE_RIG);
         CHECKS.due("octet ahead of any", x.octet(0), NONE);
         CHECKS.due("plan", x.take(1, 2, 1) && x.fly(4, 0, 0) && x.fly(9, 0, 1) && x.down(70, 0), true);
         CHECKS.due("book", x.book(300), 1);
@@ -264,16 +266,17 @@ public final class BillTest {
         CHECKS.due("octet(-1)", x.octet(-1), NONE);
         CHECKS.due("unbook", x.unbook() + x.unbook(), 1);
         CHECKS.due("the latest image stays", x.octet(0), 2);
-        CHECKS.due("on", Checks.readImage(x, sealed), true);
+        CHECKS.due("on", x.on(sealed), true);
         CHECKS.due("the tape went", x.end(1), false);
         CHECKS.due("acts", x.has(4), 2);
         CHECKS.due("at", x.at(0, 305), 10);
         CHECKS.due("worth", x.bill(0), 1800);
         CHECKS.due("the plan stays", x.plan(0), 80);
+        changedImages(want);
         wrongImages(x, want);
     }
 
-    private static void wrongImages(FlyingBars x, int[] want) {
+    private static void changedImages(int[] want) {
         // k, what to put there instead, whether it is taken.
         int[][] changes = {{0, 1, 0}, {0, 3, 0}, {0, 7, 0}, {1, 2, 0}, {2, 145, 0}, {2, 255, 0}, {3, 2, 0},
             {3, 0, 1}, {4, 5, 0}, {4, 4, 1}, {5, 2, 0}, {5, 0, 0}, {6, 1, 0}, {6, 9, 0}, {7, 1, 0}, {7, 6, 1}, {7, 7, 0},
@@ -285,28 +288,32 @@ public final class BillTest {
             other[change[0]] = change[1];
             boolean taken = change[2] == 1;
             String call = "on with " + change[1] + " at " + change[0];
-            CHECKS.due(call, Checks.readImage(x, Checks.sealed(other)), taken);
-            byte[] left = Checks.imageOf(x);
+            Watched x = Watched.made(IMAGE_RIG);
+            CHECKS.due("on", x.on(Checks.sealed(want)), true);
+            CHECKS.due(call, x.on(Checks.sealed(other)), taken);
+            byte[] left = x.imageBytes();
             CHECKS.due(call + " as written", left.length, want.length + 1);
             CHECKS.due(call + " as read", left[change[0]] & 255, taken ? change[1] : want[change[0]]);
-            CHECKS.due("on", Checks.readImage(x, Checks.sealed(want)), true);
         }
+    }
+
+    private static void wrongImages(Watched x, int[] want) {
         byte[] wrongEnd = Checks.sealed(want);
         wrongEnd[want.length] ^= 1;
-        CHECKS.due("another last byte", Checks.readImage(x, wrongEnd), false);
+        CHECKS.due("another last byte", x.on(wrongEnd), false);
         byte[] longer = java.util.Arrays.copyOf(Checks.sealed(want), want.length + 2);
-        CHECKS.due("a byte more", Checks.readImage(x, longer), false);
-        CHECKS.due("a byte less", Checks.readImage(x, java.util.Arrays.copyOf(longer, want.length)), false);
-        CHECKS.due("no byte", Checks.readImage(x, new byte[0]), false);
-        CHECKS.due("one byte", Checks.readImage(x, new byte[] {0}), false);
+        CHECKS.due("a byte more", x.on(longer), false);
+        CHECKS.due("a byte less", x.on(java.util.Arrays.copyOf(longer, want.length)), false);
+        CHECKS.due("no byte", x.on(new byte[0]), false);
+        CHECKS.due("one byte", x.on(new byte[] {0}), false);
         CHECKS.due("acts stay", x.has(4), 2);
-        CHECKS.due("an act cut off", Checks.readImage(x, Checks.sealed(1, 0, 0, 9, 0, 0, 0)), false);
-        CHECKS.due("a flight cut off", Checks.readImage(x, Checks.sealed(1, 0, 0, 0, 0, 0, 1, 0, 9, 1, 0, 0)), false);
+        CHECKS.due("an act cut off", x.on(Checks.sealed(1, 0, 0, 9, 0, 0, 0)), false);
+        CHECKS.due("a flight cut off", x.on(Checks.sealed(1, 0, 0, 0, 0, 0, 1, 0, 9, 1, 0, 0)), false);
         CHECKS.due("acts stay", x.has(4), 2);
-        CHECKS.due("an empty one", Checks.readImage(x, Checks.sealed(0)), true);
+        CHECKS.due("an empty one", x.on(Checks.sealed(0)), true);
         CHECKS.due("no acts", x.has(4), 0);
         int[] bad = {1, 0, 0, 1, 2, 1, 0, 3, 0};
-        CHECKS.due("good or not", x.change(1, 40, 0, 60) && Checks.readImage(x, Checks.sealed(bad)), true);
+        CHECKS.due("good or not", x.change(1, 40, 0, 60) && x.on(Checks.sealed(bad)), true);
         CHECKS.due("it fails", x.fails(0), 0);
     }
 
@@ -397,7 +404,7 @@ public final class BillTest {
         return found;
     }
 
-    private static Act planOf(FlyingBars x) {
+    private static Act planOf(Watched x) {
         List<Flight> flights = new ArrayList<>();
         for (int i = 0; i < x.has(5); i++) {
             flights.add(new Flight(x.step(i, 0), x.step(i, 1), x.step(i, 2), x.step(i, 3)));
@@ -405,8 +412,9 @@ public final class BillTest {
         return new Act(0, x.plan(2), x.plan(0), x.plan(1), flights, x.plan(3), x.plan(4));
     }
 
-    private static void against(Model model, FlyingBars x, String seed) {
+    private static void against(Model model, String seed) {
         List<Act> bill = new ArrayList<>();
+        Watched x = Watched.made(model.text);
         for (int round = 0; round < 8; round++) {
             int from = model.random.nextInt(model.boards);
             int to = model.random.nextInt(model.boards);
@@ -436,11 +444,11 @@ public final class BillTest {
             if (model.random.nextInt(3) == 0) {
                 fill(model, x, bill, seed, from, to);
             }
-            reread(x, seed);
+            x = reread(model, x, seed);
         }
     }
 
-    private static void look(Model model, FlyingBars x, List<Act> bill, String seed) {
+    private static void look(Model model, Watched x, List<Act> bill, String seed) {
         int worth = 0;
         int last = 0;
         int most = 0;
@@ -463,7 +471,7 @@ public final class BillTest {
                 slacks += slack > 1 ? 1 : 0;
                 CHECKS.due(seed + " slack", x.slack(i, bar, grows), slack);
             }
-            for (int k = 0; k < 10; k++) {
+            for (int k = 0; k < 4; k++) {
                 int tick = act.tick + act.shift - 2 + model.random.nextInt(25);
                 int[] state = tick < 0 || tick > 500 ? null : state(model, act, tick);
                 CHECKS.due(seed + " at", x.at(i, tick), state == null ? NONE : state[0] >= 0 ? state[0] : 10 + state[2]);
@@ -481,7 +489,7 @@ public final class BillTest {
         CHECKS.due(seed + " bill(2)", x.bill(2), most);
     }
 
-    private static void sway(Model model, FlyingBars x) {
+    private static void sway(Model model, Watched x) {
         int bar = model.random.nextInt(model.bars);
         if (model.random.nextInt(3) == 0) {
             model.phase[bar] = model.random.nextInt(40);
@@ -490,7 +498,7 @@ public final class BillTest {
         }
     }
 
-    private static void fill(Model model, FlyingBars x, List<Act> bill, String seed, int from, int to) {
+    private static void fill(Model model, Watched x, List<Act> bill, String seed, int from, int to) {
         int before = bill.size();
         Model.Found best = model.best(from, to, 2, 30);
         int came = x.fill(from, to, 2, 30);
@@ -510,14 +518,18 @@ public final class BillTest {
         look(model, x, bill, seed);
     }
 
-    private static void reread(FlyingBars x, String seed) {
-        byte[] image = Checks.imageOf(x);
-        int acts = x.has(4);
-        while (x.unbook() != NONE) {
-            continue;
+    /** The bill goes on in a new object, as its image tells it; another one tells the same image. */
+    private static Watched reread(Model model, Watched x, String seed) {
+        byte[] image = x.imageBytes();
+        Watched next = Watched.made(model.text);
+        for (int bar = 0; bar < model.bars; bar++) {
+            next.change(bar, model.period[bar], model.phase[bar], model.reach[bar]);
         }
-        CHECKS.due(seed + " on", Checks.readImage(x, image), true);
-        CHECKS.due(seed + " acts", x.has(4), acts);
-        CHECKS.due(seed + " the same image", java.util.Arrays.equals(image, Checks.imageOf(x)), true);
+        CHECKS.due(seed + " on", next.on(image), true);
+        CHECKS.due(seed + " acts", next.has(4), x.has(4));
+        Watched other = Watched.made(model.text);
+        other.on(image);
+        CHECKS.due(seed + " the same image", java.util.Arrays.equals(image, other.imageBytes()), true);
+        return next;
     }
 }

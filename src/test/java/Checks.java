@@ -27,38 +27,23 @@ final class Checks {
 
     /** Puts bytes on the tape; false when they have no room there. */
     static boolean lay(FlyingBars x, byte[] bytes) {
-        int fed = 0;
-        while (fed < bytes.length) {
-            int[] words = new int[5];
-            for (int i = 0; i < 20; i++) {
-                int octet = fed + i < bytes.length ? bytes[fed + i] & 255 : 32;
-                words[i / 4] = words[i / 4] << 8 | octet;
-            }
+        for (int fed = 0; fed < bytes.length; fed += 20) {
+            int[] words = words(bytes, fed);
             if (x.feed(words[0], words[1], words[2], words[3], words[4]) == FlyingBars.NONE) {
                 return false;
             }
-            fed += 20;
         }
         return x.end(bytes.length);
     }
 
-    static int rig(FlyingBars x, String text) {
-        byte[] bytes = new byte[text.length()];
-        for (int i = 0; i < bytes.length; i++) {
-            bytes[i] = (byte) text.charAt(i);
+    /** Twenty bytes from a place on as five numbers, with blanks behind the last byte. */
+    static int[] words(byte[] bytes, int from) {
+        int[] words = new int[5];
+        for (int i = 0; i < 20; i++) {
+            int octet = from + i < bytes.length ? bytes[from + i] & 255 : 32;
+            words[i / 4] = words[i / 4] << 8 | octet;
         }
-        if (!lay(x, bytes)) {
-            throw new IllegalStateException("no room for " + text);
-        }
-        return x.rig();
-    }
-
-    static FlyingBars made(String text) {
-        FlyingBars x = new FlyingBars();
-        if (rig(x, text) == FlyingBars.NONE) {
-            throw new IllegalStateException("fault " + x.fault(0) + " at " + x.fault(1) + ": " + text);
-        }
-        return x;
+        return words;
     }
 
     /** The bytes of the image of the bill. */
@@ -80,10 +65,5 @@ final class Checks {
         }
         bytes[numbers.length] = (byte) c;
         return bytes;
-    }
-
-    static boolean readImage(FlyingBars x, byte[] bytes) {
-        x.end(0);
-        return lay(x, bytes) && x.on();
     }
 }

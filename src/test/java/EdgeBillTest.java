@@ -91,6 +91,13 @@ public final class EdgeBillTest {
         EDGES.row("a flight at 89, at 90", new int[] {x.book(86), x.book(87)}, 1, NONE);
         EDGES.due("plan", act(x, 0, 0, 3, 1, 9), true);
         EDGES.row("a flight at 8, 9, 90, 91", new int[] {x.book(5), x.book(6), x.book(87), x.book(88)}, 2, NONE, NONE, 3);
+        // Bar a is by board p at ticks 1 and 2, 6 and 7 of eight; the flight and going down can be at any tick.
+        x = Watched.made("bar a at 100 every 8 from 0 reach 20;bar b at 100 every 4 from 0 reach 0;board p at 105;trick t ticks 1 arms 40 worth 5 when all;");
+        EDGES.due("plan", x.take(0, 1, 0) && x.fly(2, 0, 1) && x.down(5, 0), true);
+        int[] taken = {1, 1, 0, 0, 0, 1, 1, 0, 1};
+        for (int shift = 0; shift < taken.length; shift++) {
+            EDGES.due("taken at " + (1 + shift), x.book(shift), taken[shift] == 1 ? x.has(4) : NONE);
+        }
         EDGES.of("Promise 26", "it is not GOOD so");
         x = Scenes.planDown();
         EDGES.due("change", x.change(2, 9, 0, 60), true);
@@ -234,6 +241,26 @@ public final class EdgeBillTest {
             int due = place >= 88 && place <= 92 ? 5 : place >= 98 && place <= 102 ? 6 : place >= 108 && place <= 112 ? 7 : NONE;
             EDGES.row("the other flies at " + place, new int[] {x.quarrel(0, 1), x.quarrel(1, 0)}, due, due);
         }
+        EDGES.of("Terms II", "i ticks behind t at where that BAR was at t and i times its SPEED at t");
+        // The first one lets go of bar a, which rises by 10: at 5, at 90; by 1 at 6, at 100; by 7 at 12, at 80.
+        for (int place = 75; place <= 135; place++) {
+            for (int shift = 0; shift <= 7; shift += shift == 0 ? 1 : 6) {
+                Watched x = Watched.made("bar a at 100 every 8 from 0 reach 20;bar b at 110 every 4 from 0 reach 0;bar c at " + place + " every 4 from 0 reach 0;"
+                        + "bar d at " + place + " every 4 from 0 reach 0;board p at 115;board q at " + place + ";board r at 110;"
+                        + "trick t ticks 4 arms 40 worth 5 when all;trick u ticks 20 arms 0 worth 5 when all;");
+                EDGES.due("first", x.take(0, 0, 0) && x.fly(5, 0, 1) && x.down(9, 2) && x.book(shift) == 1, true);
+                EDGES.due("second", x.take(1, 0, 2) && x.fly(0, 1, 3) && x.down(21, 1) && x.book(0) == 2, true);
+                int due = NONE;
+                for (int i = 3; i >= 1; i--) {
+                    int air = (shift == 0 ? 90 : shift == 1 ? 100 : 80) + 10 * i;
+                    due = Math.abs(air - place) <= 2 ? 5 + shift + i : due;
+                }
+                EDGES.row("by " + shift + ", the other flies at " + place, new int[] {x.quarrel(0, 1), x.quarrel(1, 0)}, due, due);
+                x.unbook();
+                boolean well = x.take(1, 0, 2) && x.fly(0, 1, 3) && x.down(21, 1);
+                EDGES.due("shift by " + shift + " of the other at " + place, well && x.shift() == 0, due == NONE);
+            }
+        }
         EDGES.of("Terms II", "it is IN THE AIR at the ticks t + 1 .. t + TICKS - 1");
         for (int ticks = 1; ticks <= 20; ticks++) {
             for (int later = Math.max(0, ticks - 3); later <= ticks + 1; later++) {
@@ -284,11 +311,11 @@ public final class EdgeBillTest {
         EDGES.due("take", x.take(0, 1, 0), true);
         int tick = 1;
         for (int i = 0; i < 8; i++) {
-            EDGES.due("fly", x.fly(tick + 1, i, 7 - i > 3 ? 7 - i : (i + 1) % 8), true);
+            EDGES.due("fly", x.fly(tick + 1, i, 7 - i > 3 ? 7 - i : (i + 1) % 7), true);
             tick += 1 + i + 1;
         }
         EDGES.due("down", x.down(tick + 2, 0) && x.book(0) == 1, true);
-        int[] bars = {0, 7, 6, 5, 4, 5, 6, 7, 0};
+        int[] bars = {0, 7, 6, 5, 4, 5, 6, 0, 1};
         EDGES.row("ahead of it", new int[] {x.at(0, 0), x.at(0, 1)}, NONE, 0);
         tick = 1;
         for (int i = 0; i < 8; i++) {
@@ -299,7 +326,11 @@ public final class EdgeBillTest {
             tick += 1 + i + 1;
             EDGES.due("where it comes down", x.at(0, tick), bars[i + 1]);
         }
-        EDGES.row("to its end", new int[] {x.at(0, tick + 1), x.at(0, tick + 2), x.at(0, tick + 3)}, 0, 0, NONE);
+        EDGES.row("to its end", new int[] {x.at(0, tick + 1), x.at(0, tick + 2), x.at(0, tick + 3)}, 1, 1, NONE);
+        EDGES.due("it does not fail", x.fails(0), NONE);
+        EDGES.due("one on its last bar", x.take(0, tick + 1, 1) && x.down(80, 0) && x.book(0) == 2, true);
+        EDGES.due("one on its first bar", x.take(0, tick + 1, 0) && x.down(80, 0) && x.book(0) == 3, true);
+        EDGES.row("quarrels behind eight flights", new int[] {x.quarrel(0, 1), x.quarrel(1, 0), x.quarrel(0, 2), x.quarrel(2, 0)}, tick + 1, tick + 1, NONE, NONE);
     }
 
     private static void atNone() {
@@ -338,6 +369,35 @@ public final class EdgeBillTest {
                 image[3] = 1;
                 EDGES.due("on", x.on(Checks.sealed(image)), true);
                 EDGES.due("taking fails first", x.fails(0), 0);
+            }
+        }
+        EDGES.of("Terms II", "done: how many FLIGHTS the flyer had in this ACT ahead of it; again: 1, if the one just ahead was by the same TRICK, else 0");
+        for (int bits = 0; bits < 16; bits++) {
+            // Trick 0 begins or goes on with itself, trick 1 never follows itself and is the second flight or a later one.
+            Watched x = Watched.made(STILL + "trick t ticks 1 arms 0 worth 5 when done=0 or again=1;trick u ticks 1 arms 0 worth 5 when again=0 and done>0;");
+            int[] image = new int[9 + 20];
+            image[0] = 1;
+            image[6] = 4;
+            int due = NONE;
+            for (int i = 0; i < 4; i++) {
+                int trick = bits >> i & 1;
+                image[7 + 5 * i] = i;
+                image[8 + 5 * i] = trick;
+                image[9 + 5 * i] = 1 - i % 2;
+                boolean again = i > 0 && trick == (bits >> i - 1 & 1);
+                boolean good = trick == 0 ? i == 0 || again : !again && i > 0;
+                due = due == NONE && !good ? i + 1 : due;
+            }
+            image[27] = 20;
+            EDGES.due("on", x.on(Checks.sealed(image)), true);
+            EDGES.due("tricks by the bits of " + bits, x.fails(0), due);
+            boolean well = x.take(0, 0, 0);
+            for (int i = 0; i < 4; i++) {
+                well = well && x.fly(i, bits >> i & 1, 1 - i % 2);
+            }
+            EDGES.due("told by hand", well, due == NONE);
+            if (well) {
+                EDGES.row("and booked", new int[] {x.down(20, 0) ? 1 : 0, x.shift() > 0 ? 1 : 0, x.book(0), x.book(400)}, 1, 1, 2, 3);
             }
         }
         EDGES.of("Terms III", "FAILS of an ACT of THE BILL, by how BARS go now");

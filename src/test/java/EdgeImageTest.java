@@ -356,6 +356,19 @@ public final class EdgeImageTest {
         for (int length = 0; length <= TWO.length; length++) {
             taken("the first " + length + " and a last byte", Arrays.copyOf(TWO, length), length == TWO.length);
         }
+        // With a byte that can't be, and cut off at any place behind it.
+        int[][] wrong = {{1, 2}, {3, 9}, {4, 81}, {5, 9}, {6, 9}, {7, 1}, {8, 9}, {9, 9}, {10, 4}, {12, 6}, {14, 9}, {17, 28}, {18, 9}, {22, 81}};
+        for (int[] w : wrong) {
+            for (int length = w[0] + 1; length <= TWO.length; length++) {
+                for (int acts = 1; acts <= 2; acts++) {
+                    int[] image = Arrays.copyOf(with(w[0], w[1]), length);
+                    image[0] = acts;
+                    Watched x = Watched.made(RIG);
+                    EDGES.due("byte " + w[0] + " is " + w[1] + ", the first " + length + " and a last byte", x.on(Checks.sealed(image)), false);
+                    EDGES.due("acts", x.has(4), 0);
+                }
+            }
+        }
         for (int more = 1; more <= 3; more++) {
             taken(more + " bytes more and a last byte", Arrays.copyOf(TWO, TWO.length + more), false);
         }

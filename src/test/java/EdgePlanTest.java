@@ -16,6 +16,7 @@ public final class EdgePlanTest {
         aNinth();
         flyRefused();
         goesDown();
+        downBehindEight();
         downRefused();
         planOf();
         planNone();
@@ -212,6 +213,23 @@ public final class EdgePlanTest {
         x = Scenes.planOpen();
         EDGES.due("on another board", x.down(20, 1), true);
         EDGES.row("the plan", plan(x), 8, 0, 0, 20, 1, 7, 1);
+    }
+
+    /** Eight flights from bar a to bar c, of which c alone is by board q. */
+    private static void downBehindEight() {
+        EDGES.of("Promise 23", "THE PLAN goes down at a tick on a BOARD: true");
+        Watched x = Watched.made("bar a at 9 every 4 from 0 reach 0;bar b at 9 every 4 from 0 reach 0;bar c at 20 every 4 from 0 reach 0;board p at 9;board q at 25;"
+                + "trick t ticks 1 arms 11 worth 1 when all;");
+        x.take(0, 0, 0);
+        for (int i = 0; i < 8; i++) {
+            EDGES.due("on q ahead of flight " + i, x.down(i, 1), false);
+            EDGES.due("fly", x.fly(i, 0, i == 7 ? 2 : 1 - i % 2), true);
+        }
+        EDGES.due("on p behind them", x.down(8, 0), false);
+        EDGES.due("on q before the last coming", x.down(7, 1), false);
+        EDGES.due("on q behind them", x.down(8, 1), true);
+        EDGES.row("the plan", plan(x), 0, 0, 0, 8, 1, 8, 8);
+        EDGES.due("onto the bill", x.book(0), 1);
     }
 
     private static void downRefused() {

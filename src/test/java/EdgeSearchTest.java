@@ -8,6 +8,9 @@ public final class EdgeSearchTest {
             + "trick hop ticks 2 arms 10 worth 50-miss when all;";
 
     public static void main(String[] args) {
+        newRig();
+        newSwing();
+        fullRig();
         bestByFlights();
         bestByTick();
         bestIsThePlan();
@@ -44,6 +47,79 @@ public final class EdgeSearchTest {
         row[2 + 4 * flights] = x.plan(3);
         row[3 + 4 * flights] = x.plan(4);
         return row;
+    }
+
+    private static int[] asked(Watched x) {
+        return new int[] {x.best(0, 0, 1, 9), x.plan(3), x.ways(0, 0, 1, 1), x.soonest(0, 0, 1, 8), x.reached(0, 0, 0), x.barred(0, 0, 1, 9, true, 0),
+            x.barred(0, 0, 1, 9, false, 0), x.fill(0, 0, 1, 9)};
+    }
+
+    private static void newRig() {
+        EDGES.of("Promise 4", "The tape (it goes) is THE RIG");
+        String apart = "bar a at 9 every 4 from 0 reach 0;bar b at 12 every 4 from 0 reach 0;board p at 9;";
+        Watched x = Watched.made(STILL + "trick t ticks 1 arms 2 worth 5 when all;");
+        EDGES.row("no miss", asked(x), 5, 1, 8, 1, 3, 0, 0, 6);
+        EDGES.due("rig", x.rig(apart + "trick t ticks 1 arms 2 worth 5 when all;"), 4);
+        EDGES.row("a miss of 3", asked(x), 0, 0, 6, NONE, 3, 0, 0, 6);
+        EDGES.due("rig", x.rig(apart + "trick t ticks 2 arms 3 worth 7 when again=0;"), 4);
+        EDGES.row("by arms of 3", asked(x), 7, 2, 6, 2, 3, 0, 0, 6);
+        EDGES.due("rig", x.rig(apart + "trick t ticks 2 arms 3 worth 7 when all;trick u ticks 1 arms 3 worth 9 when done=0;bar c at 90 every 4 from 0 reach 0;"), 6);
+        EDGES.row("by two tricks", asked(x), 9, 1, 8, 1, 3, 9, 0, 6);
+        EDGES.due("rig with a fault", x.rig("bar"), NONE);
+        x.unbook();
+        EDGES.row("all stays", asked(x), 9, 1, 8, 1, 3, 9, 0, 1);
+    }
+
+    private static void newSwing() {
+        EDGES.of("Promise 8", "A BAR goes by another PERIOD, PHASE, REACH from now on");
+        Watched x = Watched.made(STILL + "trick t ticks 1 arms 2 worth 5 when all;");
+        EDGES.row("no miss", asked(x), 5, 1, 8, 1, 3, 0, 0, 6);
+        // Bar b goes 12 9 6 9: it is by the board at all ticks, and flights to it or from it are good when they come down at odd ones.
+        EDGES.due("change", x.change(1, 4, 0, 3), true);
+        EDGES.row("a miss of 3 at even ticks", asked(x), 5, 1, 8, 1, 3, 0, 0, 0);
+        EDGES.due("change", x.change(1, 4, 1, 3), true);
+        EDGES.row("a miss of 3 at odd ticks", asked(x), 5, 2, 6, 2, 3, 0, 0, 0);
+        EDGES.due("change", x.change(1, 4, 0, 0), true);
+        EDGES.row("no miss", asked(x), 5, 1, 8, 1, 3, 0, 0, 0);
+        EDGES.due("change that can't be", x.change(1, 4, 40, 60), false);
+        EDGES.row("no miss", asked(x), 5, 1, 8, 1, 3, 0, 0, 0);
+    }
+
+    /** Eight bars and eight tricks, all good everywhere, and such that mind the trick just ahead. */
+    private static void fullRig() {
+        EDGES.of("Terms I", "8 TRICKS");
+        StringBuilder bars = new StringBuilder("board p at 9;");
+        StringBuilder all = new StringBuilder();
+        StringBuilder unlike = new StringBuilder();
+        for (int i = 0; i < 8; i++) {
+            bars.append("bar b").append((char) ('a' + i)).append(" at 9 every 4 from 0 reach 0;");
+            all.append("trick t").append((char) ('a' + i)).append(" ticks 1 arms 0 worth ").append(i).append(" when all;");
+            unlike.append("trick t").append((char) ('a' + i)).append(" ticks 1 arms 0 worth ").append(i).append(" when again=0;");
+        }
+        Watched x = Watched.made(bars.toString() + all);
+        EDGES.row("all", new int[] {x.ways(0, 0, 0, 80), x.ways(0, 0, 1, 1), x.ways(0, 0, 1, 80), x.best(0, 0, 8, 80), x.plan(3), x.reached(0, 0, 80), x.soonest(0, 0, 8, 8)},
+                8 * 3321, 8 * (3 + 56), 8 * (3321 + 56 * 88560), 56, 8, 255, 8);
+        x = Watched.made(bars.toString() + unlike);
+        EDGES.row("none by the trick just ahead", new int[] {x.ways(0, 0, 1, 1), x.ways(0, 0, 2, 2), x.best(0, 0, 8, 80), x.step(0, 1), x.step(1, 1), x.step(7, 1), x.soonest(0, 0, 8, 8)},
+                8 * (3 + 56), 8 * (6 + 56 * 4 + 56 * 49), 4 * 7 + 4 * 6, 6, 7, 7, 8);
+        EDGES.row("without one of them", new int[] {x.barred(0, 0, 8, 80, true, 7), x.barred(0, 0, 8, 80, true, 0), x.barred(0, 0, 8, 80, false, 7)}, 4 * 6 + 4 * 5, 52, 52);
+        EDGES.of("Terms II", "again: 1, if the one just ahead was by the same TRICK, else 0");
+        for (int only = 0; only < 8; only++) {
+            StringBuilder once = new StringBuilder();
+            StringBuilder twice = new StringBuilder();
+            for (int i = 0; i < 8; i++) {
+                once.append("trick t").append((char) ('a' + i)).append(" ticks 1 arms 0 worth 5 when again=0 and ").append(i == only ? "all;" : "not all;");
+                twice.append("trick t").append((char) ('a' + i)).append(" ticks 1 arms 0 worth 5 when ").append(i == only ? "done=0 or again=1;" : "again=1;");
+            }
+            x = Watched.made(bars.toString() + once);
+            EDGES.row("trick " + only + " not twice", new int[] {x.soonest(0, 0, 1, 8), x.soonest(0, 0, 2, 8), x.best(0, 0, 8, 80), x.ways(0, 0, 8, 2)}, 1, NONE, 5, 8 * (6 + 7 * 4));
+            x = Watched.made(bars.toString() + twice);
+            EDGES.row("trick " + only + " again and again", new int[] {x.soonest(0, 0, 1, 8), x.soonest(0, 0, 2, 8), x.soonest(0, 0, 8, 8), x.best(0, 0, 8, 80), x.step(7, 1),
+                x.ways(0, 0, 8, 2), x.barred(0, 0, 8, 80, true, only)}, 1, 2, 8, 40, only, 8 * (6 + 7 * 4 + 49), 0);
+        }
+        x = Watched.made("bar a at 9 every 4 from 0 reach 0;bar b at 39 every 4 from 0 reach 0;bar c at 69 every 4 from 0 reach 0;board p at 9;"
+                + "trick t ticks 1 arms 30 worth 1 when done=0 or again=1;trick u ticks 1 arms 30 worth 1 when done=1 and again=1;");
+        EDGES.row("reached by the same trick twice", new int[] {x.reached(0, 1, 80), x.reached(0, 2, 1), x.reached(0, 2, 2), x.barred(0, 0, 2, 80, true, 0)}, 3, 3, 7, 0);
     }
 
     private static void bestByFlights() {

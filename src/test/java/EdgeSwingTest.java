@@ -413,6 +413,17 @@ public final class EdgeSwingTest {
                 EDGES.due("one pair alone, arms " + arms, Watched.made(text.toString()).idle(0), arms < 5 ? 1 : 0);
             }
         }
+        // A catcher on one bar alone tells flights from it and flights to it apart.
+        for (int with = 0; with < 8; with += 7) {
+            StringBuilder text = new StringBuilder();
+            for (int i = 0; i < 8; i++) {
+                text.append(bar("b" + (char) ('a' + i), i == 7 - with ? 50 * with : 50 * i, 4, 0, 0));
+            }
+            text.append("catcher b").append((char) ('a' + with)).append(";trick t ticks 1 arms 0 worth 1 when thrown=1;")
+                    .append("trick u ticks 1 arms 0 worth 1 when caught=1;trick v ticks 1 arms 0 worth 1 when thrown=caught;");
+            Watched x = Watched.made(text.toString());
+            EDGES.row("from bar " + with + " alone, to it alone, between others", new int[] {x.idle(0), x.idle(1), x.idle(2)}, 0, 0, 1);
+        }
         String one = bar("a", 9, 4, 0, 0) + "trick t ticks 1 arms 40 worth 1 when all;";
         EDGES.due("one bar alone", Watched.made(one).idle(0), 1);
         EDGES.due("no bar", Watched.made("trick t ticks 1 arms 40 worth 1 when all;").idle(0), 1);

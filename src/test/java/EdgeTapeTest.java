@@ -18,6 +18,7 @@ public final class EdgeTapeTest {
         howManyStatements();
         allStays();
         noPlanEmptyBill();
+        rigBehindRig();
         faultOfLatest();
         otherFaults();
         hasCounts();
@@ -240,6 +241,35 @@ public final class EdgeTapeTest {
         x.rig(BAR);
         EDGES.row("the new rig alone", new int[] {x.has(0), x.has(1), x.has(2), x.letter(0, 0, 0), x.letter(0, 1, 0)},
                 1, 0, 0, 1, NONE);
+    }
+
+    /** A small rig behind full ones, and behind a full one with a fault at its end, is as it is in a new object. */
+    private static void rigBehindRig() {
+        EDGES.of("Promise 4", "The tape (it goes) is THE RIG");
+        StringBuilder text = new StringBuilder();
+        for (int i = 0; i < 8; i++) {
+            char name = (char) ('a' + i);
+            text.append("bar ").append(name).append(name).append(" at 9 every ").append(11 + i).append(" from 3 reach 1;catcher ").append(name).append(name).append(";");
+            text.append(i < 4 ? "board p" + name + " at 9;" : "");
+            text.append("trick t").append(name).append(" ticks 1 arms 40 worth 9 when ").append(i == 0 ? "again=0;" : "all;");
+        }
+        String[] small = {"", "board q at 9;", STILL, Scenes.RIG, "bar a at 9 every 4 from 0 reach 2;board p at 9;trick k ticks 1 arms 1 worth 3 when all;"};
+        for (String one : small) {
+            Watched fresh = Watched.made(one);
+            Watched x = Watched.made(text.toString());
+            EDGES.due("best of the full one", x.best(0, 0, 2, 80), 18);
+            EDGES.due("rig", x.rig(text.toString()), 28);
+            EDGES.due("with a fault", x.rig(text + "!"), NONE);
+            EDGES.due("rig", x.rig(one), fresh.rig(one));
+            EDGES.row("answers", answers(x), answers(fresh));
+            EDGES.due("all else", x.look(), fresh.look());
+        }
+    }
+
+    private static int[] answers(Watched x) {
+        return new int[] {x.has(0), x.has(1), x.has(2), x.has(3), x.round(), x.idle(0), x.idle(1), x.reached(0, 8, 80), x.ways(0, 0, 3, 80), x.soonest(0, 0, 1, 8),
+            x.barred(0, 0, 3, 80, false, 0), x.barred(0, 0, 3, 80, true, 0), x.best(0, 0, 3, 80), x.has(5), x.plan(3), x.fill(0, 0, 3, 80), x.bill(1),
+            x.flight(0, 1, 0, 1, 0, false, 2), x.window(0, 0, 1, -1), x.nearest(0, 0, 1, false), x.where(0, 7), x.where(1, 7), x.where(2, 7)};
     }
 
     private static void faultOfLatest() {

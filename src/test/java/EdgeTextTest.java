@@ -386,6 +386,12 @@ public final class EdgeTextTest {
         faulty(1, TRICK + "1 when 1 ^and 2 < 3;");
         faulty(1, TRICK + "1 when 1 ^;");
         faulty(1, TRICK + "min^[1,2] when all;");
+        faulty(1, TRICK + "min ^when all;");
+        faulty(1, TRICK + "min ^+ 1 when all;");
+        faulty(1, TRICK + "2 * max ^* 2 when all;");
+        faulty(1, TRICK + "(max^) when all;");
+        faulty(1, TRICK + "1 when min ^< 2;");
+        faulty(1, TRICK + "1 when 1 < max^;");
         faulty(1, TRICK + "min(1^;2) when all;");
         faulty(1, TRICK + "max(1,2^] when all;");
         faulty(1, TRICK + "(1^] when all;");

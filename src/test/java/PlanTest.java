@@ -14,12 +14,12 @@ public final class PlanTest {
         worthAsTold();
         for (int seed = 0; seed < 400; seed++) {
             Model model = new Model(seed, 4, 3);
-            against(model, Checks.made(model.text), "seed " + seed);
+            against(model, Watched.made(model.text), "seed " + seed);
         }
         CHECKS.finish();
     }
 
-    private static void plan(FlyingBars x, int... due) {
+    private static void plan(Watched x, int... due) {
         for (int what = 0; what < due.length; what++) {
             CHECKS.due("plan(" + what + ")", x.plan(what), due[what]);
         }
@@ -28,7 +28,7 @@ public final class PlanTest {
     }
 
     private static void byHand() {
-        FlyingBars x = Checks.made(RIG);
+        Watched x = Watched.made(RIG);
         plan(x, NONE, NONE, NONE, NONE, NONE, NONE);
         CHECKS.due("fly without a plan", x.fly(6, 0, 1), false);
         CHECKS.due("down without a plan", x.down(0, 0), false);
@@ -59,7 +59,7 @@ public final class PlanTest {
     }
 
     private static void refused() {
-        FlyingBars x = Checks.made(RIG);
+        Watched x = Watched.made(RIG);
         int[][] takes = {{-1, 0, 0}, {2, 0, 0}, {0, -1, 0}, {0, 81, 0}, {0, 0, -1}, {0, 0, 2}, {1, 0, 0}, {0, 88, 0}};
         for (int[] t : takes) {
             CHECKS.due("take(" + t[0] + ", " + t[1] + ", " + t[2] + ")", x.take(t[0], t[1], t[2]), false);
@@ -88,7 +88,7 @@ public final class PlanTest {
     private static final String STILL = "bar a at 9 every 4 from 0 reach 0;bar b at 9 every 4 from 0 reach 0;board p at 9;";
 
     private static void eightFlights() {
-        FlyingBars x = Checks.made(STILL + "trick k ticks 3 arms 0 worth done*10+again when done<9;");
+        Watched x = Watched.made(STILL + "trick k ticks 3 arms 0 worth done*10+again when done<9;");
         CHECKS.due("take", x.take(0, 0, 0), true);
         int worth = 0;
         for (int i = 0; i < 8; i++) {
@@ -105,7 +105,7 @@ public final class PlanTest {
     }
 
     private static void lastTicks() {
-        FlyingBars x = Checks.made(STILL + "trick k ticks 3 arms 0 worth 1 when all;");
+        Watched x = Watched.made(STILL + "trick k ticks 3 arms 0 worth 1 when all;");
         CHECKS.due("take at 80", x.take(0, 80, 1), true);
         CHECKS.due("fly at 80", x.fly(80, 0, 0), false);
         CHECKS.due("down at 80", x.down(80, 0), true);
@@ -118,7 +118,7 @@ public final class PlanTest {
     }
 
     private static void worthAsTold() {
-        FlyingBars x = Checks.made(STILL + "trick k ticks 3 arms 40 worth 40-miss when all;");
+        Watched x = Watched.made(STILL + "trick k ticks 3 arms 40 worth 40-miss when all;");
         CHECKS.due("take", x.take(0, 0, 0), true);
         CHECKS.due("fly", x.fly(0, 0, 1), true);
         CHECKS.due("change", x.change(1, 4, 3, 12), true);
@@ -127,7 +127,7 @@ public final class PlanTest {
         CHECKS.due("where", x.where(1, 4), 9);
     }
 
-    private static void against(Model model, FlyingBars x, String seed) {
+    private static void against(Model model, Watched x, String seed) {
         for (int round = 0; round < 10; round++) {
             int board = model.random.nextInt(model.boards);
             int tick = model.random.nextInt(82);

@@ -27,22 +27,22 @@ public final class RigTest {
     private static void faulty(int fault, String marked) {
         int place = marked.indexOf('^');
         String text = marked.substring(0, place) + marked.substring(place + 1);
-        FlyingBars x = new FlyingBars();
-        CHECKS.due("rig of " + marked, Checks.rig(x, text), FlyingBars.NONE);
+        Watched x = new Watched();
+        CHECKS.due("rig of " + marked, x.rig(text), FlyingBars.NONE);
         CHECKS.due("fault(0) of " + marked, x.fault(0), fault);
         CHECKS.due("fault(1) of " + marked, x.fault(1), place);
         CHECKS.due("bars of " + marked, x.has(0), 0);
     }
 
     private static void well(String text, int statements) {
-        FlyingBars x = new FlyingBars();
-        CHECKS.due("rig of " + text, Checks.rig(x, text), statements);
+        Watched x = new Watched();
+        CHECKS.due("rig of " + text, x.rig(text), statements);
         CHECKS.due("fault(0) of " + text, x.fault(0), 0);
         CHECKS.due("fault(1) of " + text, x.fault(1), FlyingBars.NONE);
     }
 
     private static void tape() {
-        FlyingBars x = new FlyingBars();
+        Watched x = new Watched();
         CHECKS.due("fault(0) ahead of any", x.fault(0), 0);
         CHECKS.due("fault(1) ahead of any", x.fault(1), FlyingBars.NONE);
         CHECKS.due("fault(2)", x.fault(2), FlyingBars.NONE);
@@ -190,7 +190,7 @@ public final class RigTest {
         faulty(3, BAR + "board p at 5;catcher ^p;");
         faulty(3, BAR + "catcher ^aa;");
         well(BAR + "bar aa at 1 every 8 from 0 reach 5;bar abcdef at 1 every 8 from 0 reach 5;catcher aa;", 4);
-        FlyingBars x = Checks.made(BAR + "bar b at 1 every 8 from 0 reach 5;catcher b;catcher a;");
+        Watched x = Watched.made(BAR + "bar b at 1 every 8 from 0 reach 5;catcher b;catcher a;");
         CHECKS.due("catchers", x.has(3), 2);
     }
 
@@ -239,7 +239,7 @@ public final class RigTest {
         faulty(5, text + "^;");
         faulty(5, text + "^!");
         faulty(5, text + "^whatever");
-        FlyingBars x = Checks.made("board i at 1;board j at 1;board k at 1;board l at 1;" + tricks);
+        Watched x = Watched.made("board i at 1;board j at 1;board k at 1;board l at 1;" + tricks);
         CHECKS.due("boards", x.has(1), 4);
         CHECKS.due("tricks", x.has(2), 8);
     }
@@ -257,21 +257,21 @@ public final class RigTest {
             sum.append("+1");
         }
         well(TRICK + sum + " when all;", 1);
-        FlyingBars x = Checks.made("bar a at 9 every 4 from 0 reach 0;bar b at 9 every 4 from 0 reach 0;"
+        Watched x = Watched.made("bar a at 9 every 4 from 0 reach 0;bar b at 9 every 4 from 0 reach 0;"
                 + "trick k ticks 1 arms 1 worth 1" + "+1".repeat(390) + " when all;");
         CHECKS.due("a long sum", x.flight(0, 0, 0, 1, 0, false, 2), 391);
     }
 
     private static void whatStays() {
-        FlyingBars x = Checks.made(STILL + "board p at 9;trick k ticks 1 arms 1 worth 1 when all;");
+        Watched x = Watched.made(STILL + "board p at 9;trick k ticks 1 arms 1 worth 1 when all;");
         CHECKS.due("take", x.take(0, 0, 0), true);
         CHECKS.due("down", x.down(3, 0), true);
         CHECKS.due("book", x.book(2), 1);
-        CHECKS.due("rig", Checks.rig(x, "bar a"), FlyingBars.NONE);
+        CHECKS.due("rig", x.rig("bar a"), FlyingBars.NONE);
         CHECKS.due("bars stay", x.has(0), 2);
         CHECKS.due("the plan stays", x.plan(3), 3);
         CHECKS.due("the bill stays", x.has(4), 1);
-        CHECKS.due("rig", Checks.rig(x, BAR), 1);
+        CHECKS.due("rig", x.rig(BAR), 1);
         CHECKS.due("fault(0)", x.fault(0), 0);
         CHECKS.due("fault(1)", x.fault(1), FlyingBars.NONE);
         CHECKS.due("bars", x.has(0), 1);
@@ -279,17 +279,17 @@ public final class RigTest {
         CHECKS.due("tricks", x.has(2), 0);
         CHECKS.due("no plan", x.plan(3), FlyingBars.NONE);
         CHECKS.due("an empty bill", x.has(4), 0);
-        CHECKS.due("rig", Checks.rig(x, "bar b at 7 every 9 from 3 reach 3;catcher b;bar"), FlyingBars.NONE);
+        CHECKS.due("rig", x.rig("bar b at 7 every 9 from 3 reach 3;catcher b;bar"), FlyingBars.NONE);
         CHECKS.due("where", x.where(0, 0), 6);
         CHECKS.due("catchers stay", x.has(3), 0);
-        CHECKS.due("rig", Checks.rig(x, BAR + "catcher a;"), 2);
+        CHECKS.due("rig", x.rig(BAR + "catcher a;"), 2);
         CHECKS.due("catchers", x.has(3), 1);
-        CHECKS.due("rig", Checks.rig(x, BAR), 1);
+        CHECKS.due("rig", x.rig(BAR), 1);
         CHECKS.due("no catchers", x.has(3), 0);
     }
 
     private static void letters() {
-        FlyingBars x = Checks.made(BAR + "board zyxabc at 9;trick mn ticks 1 arms 1 worth 1 when all;");
+        Watched x = Watched.made(BAR + "board zyxabc at 9;trick mn ticks 1 arms 1 worth 1 when all;");
         int[] zyxabc = {26, 25, 24, 1, 2, 3};
         for (int k = 0; k < 6; k++) {
             CHECKS.due("board letter " + k, x.letter(1, 0, k), zyxabc[k]);
@@ -303,7 +303,7 @@ public final class RigTest {
     }
 
     private static void worth(String sum, int want) {
-        FlyingBars x = Checks.made(STILL + "trick k ticks 1 arms 1 worth " + sum + " when all;");
+        Watched x = Watched.made(STILL + "trick k ticks 1 arms 1 worth " + sum + " when all;");
         CHECKS.due("worth " + sum, x.flight(0, 0, 0, 1, 0, false, 2), want);
     }
 
@@ -334,7 +334,7 @@ public final class RigTest {
     }
 
     private static void holds(String test, boolean want) {
-        FlyingBars x = Checks.made(STILL + "trick k ticks 1 arms 1 worth 1 when " + test + ";");
+        Watched x = Watched.made(STILL + "trick k ticks 1 arms 1 worth 1 when " + test + ";");
         CHECKS.due("when " + test, x.flight(0, 0, 0, 1, 0, false, 1), want ? 1 : 0);
     }
 
@@ -361,7 +361,7 @@ public final class RigTest {
 
     private static void fact(String fact, int tick, int done, boolean again, int want) {
         String bars = "bar a at 100 every 8 from 0 reach 20;bar b at 130 every 8 from 0 reach 0;bar c at 130 every 8 from 0 reach 0;";
-        FlyingBars x = Checks.made(bars + "catcher b;trick k ticks 3 arms 40 worth " + fact + " when all;");
+        Watched x = Watched.made(bars + "catcher b;trick k ticks 3 arms 40 worth " + fact + " when all;");
         CHECKS.due(fact, x.flight(0, tick, 0, 1, done, again, 2), want);
     }
 
@@ -378,7 +378,7 @@ public final class RigTest {
         fact("done", 5, 8, false, 8);
         fact("again", 5, 0, true, 1);
         fact("again", 5, 3, false, 0);
-        FlyingBars x = Checks.made(STILL + "catcher a;trick k ticks 1 arms 1 worth 10*thrown+caught when all;");
+        Watched x = Watched.made(STILL + "catcher a;trick k ticks 1 arms 1 worth 10*thrown+caught when all;");
         CHECKS.due("thrown", x.flight(0, 0, 0, 1, 0, false, 2), 10);
         CHECKS.due("caught", x.flight(1, 0, 0, 0, 0, false, 2), 1);
     }

@@ -11,7 +11,7 @@ public final class SwingTest {
         windows();
         for (int seed = 0; seed < 150; seed++) {
             Model model = new Model(seed, 5, 4);
-            against(model, Checks.made(model.text), "seed " + seed);
+            against(model, Watched.made(model.text), "seed " + seed);
         }
         CHECKS.finish();
     }
@@ -22,7 +22,7 @@ public final class SwingTest {
 
     private static void whereAndSpeed() {
         // 4 * 3 * d / 7 for d = 0 1 2 3 3 2 1 is 0 1 3 5 5 3 1.
-        FlyingBars x = Checks.made(bar("a", 10, 7, 0, 3) + bar("b", 10, 7, 9, 3));
+        Watched x = Watched.made(bar("a", 10, 7, 0, 3) + bar("b", 10, 7, 9, 3));
         int[] places = {13, 12, 10, 8, 8, 10, 12};
         for (int t = 0; t < 30; t++) {
             CHECKS.due("where(0, " + t + ")", x.where(0, t), places[t % 7]);
@@ -36,12 +36,12 @@ public final class SwingTest {
             CHECKS.due("where", x.where(w[0], w[1]), NOWHERE);
             CHECKS.due("speed", x.speed(w[0], w[1]), NOWHERE);
         }
-        x = Checks.made(bar("a", 0, 4, 0, 60));
+        x = Watched.made(bar("a", 0, 4, 0, 60));
         CHECKS.due("below 0", x.where(0, 2), -60);
     }
 
     private static void change() {
-        FlyingBars x = Checks.made(bar("a", 10, 7, 0, 3));
+        Watched x = Watched.made(bar("a", 10, 7, 0, 3));
         CHECKS.due("change", x.change(0, 4, 39, 60), true);
         CHECKS.due("where", x.where(0, 1), 70);
         CHECKS.due("change", x.change(0, 40, 0, 0), true);
@@ -52,7 +52,7 @@ public final class SwingTest {
             CHECKS.due("change", x.change(w[0], w[1], w[2], w[3]), false);
         }
         CHECKS.due("where stays", x.where(0, 3), 10);
-        x = Checks.made(bar("a", 10, 4, 0, 0) + bar("b", 10, 4, 0, 0)
+        x = Watched.made(bar("a", 10, 4, 0, 0) + bar("b", 10, 4, 0, 0)
                 + "board p at 10;trick t ticks 1 arms 0 worth 7 when all;");
         CHECKS.due("best", x.best(0, 0, 1, 80), 7);
         CHECKS.due("ways", x.ways(0, 0, 1, 1), 8);
@@ -66,10 +66,10 @@ public final class SwingTest {
     }
 
     private static void round() {
-        CHECKS.due("round without bars", new FlyingBars().round(), 1);
-        FlyingBars x = Checks.made(bar("a", 10, 7, 0, 3));
+        CHECKS.due("round without bars", new Watched().round(), 1);
+        Watched x = Watched.made(bar("a", 10, 7, 0, 3));
         CHECKS.due("round of one", x.round(), 7);
-        x = Checks.made(bar("a", 10, 12, 5, 3) + bar("b", 10, 8, 0, 1) + bar("c", 10, 9, 0, 60));
+        x = Watched.made(bar("a", 10, 12, 5, 3) + bar("b", 10, 8, 0, 1) + bar("c", 10, 9, 0, 60));
         CHECKS.due("round of three", x.round(), 72);
         CHECKS.due("change", x.change(2, 7, 0, 0), true);
         CHECKS.due("a bar that stands still has any round", x.round(), 24);
@@ -77,19 +77,19 @@ public final class SwingTest {
         CHECKS.due("all stand still", x.round(), 1);
         String primes = bar("a", 1, 37, 0, 1) + bar("b", 1, 31, 0, 1) + bar("c", 1, 29, 0, 1) + bar("d", 1, 23, 0, 1)
                 + bar("e", 1, 19, 0, 1);
-        x = Checks.made(primes);
+        x = Watched.made(primes);
         CHECKS.due("below 10 to the 9", x.round(), 37 * 31 * 29 * 23 * 19);
-        x = Checks.made(primes + bar("f", 1, 17, 0, 1) + bar("g", 1, 13, 0, 1) + bar("h", 1, 11, 0, 1));
+        x = Watched.made(primes + bar("f", 1, 17, 0, 1) + bar("g", 1, 13, 0, 1) + bar("h", 1, 11, 0, 1));
         CHECKS.due("10 to the 9 at most", x.round(), 1000000000);
         for (int period = 4; period <= 40; period++) {
             for (int reach = 0; reach <= 60; reach += reach < 4 ? 1 : 14) {
-                x = Checks.made(bar("a", 100, period, 3, reach));
+                x = Watched.made(bar("a", 100, period, 3, reach));
                 CHECKS.due("round of " + period + " " + reach, x.round(), leastRound(x));
             }
         }
     }
 
-    private static int leastRound(FlyingBars x) {
+    private static int leastRound(Watched x) {
         for (int n = 1; n <= 40; n++) {
             boolean like = true;
             for (int t = 0; t < 40 && like; t++) {
@@ -103,7 +103,7 @@ public final class SwingTest {
     }
 
     private static void flights() {
-        FlyingBars x = Checks.made(bar("a", 100, 8, 0, 20) + bar("b", 130, 8, 0, 0)
+        Watched x = Watched.made(bar("a", 100, 8, 0, 20) + bar("b", 130, 8, 0, 0)
                 + "trick t ticks 3 arms 10 worth 60-miss when tick<999 and done<8;");
         CHECKS.due("MISS", x.flight(0, 5, 0, 1, 0, false, 0), 10);
         CHECKS.due("at the end of ARMS", x.flight(0, 5, 0, 1, 0, false, 1), 1);
@@ -123,7 +123,7 @@ public final class SwingTest {
     }
 
     private static void windows() {
-        FlyingBars x = Checks.made(bar("a", 100, 8, 0, 20) + bar("b", 130, 8, 0, 0)
+        Watched x = Watched.made(bar("a", 100, 8, 0, 20) + bar("b", 130, 8, 0, 0)
                 + "trick t ticks 3 arms 9 worth 1 when all;trick u ticks 3 arms 10 worth 1 when tick>110;");
         // From 80 on, tick 4: 80 90 100 110 120 and falling again: at 6 it comes to 130 just so.
         CHECKS.due("window", x.window(0, 0, 1, -1), 15);
@@ -150,21 +150,21 @@ public final class SwingTest {
         CHECKS.due("idle", x.idle(2), FlyingBars.NONE);
         CHECKS.due("idle", x.idle(-1), FlyingBars.NONE);
         String far = bar("a", 0, 8, 0, 0) + bar("b", 50, 8, 0, 0);
-        x = Checks.made(far + "trick t ticks 3 arms 40 worth 1 when all;");
+        x = Watched.made(far + "trick t ticks 3 arms 40 worth 1 when all;");
         CHECKS.due("idle", x.idle(0), 1);
         CHECKS.due("nearest is told even so", x.nearest(0, 0, 1, true), 50);
         CHECKS.due("the first of like ones", x.nearest(0, 0, 1, false), 0);
-        x = Checks.made(bar("a", 0, 8, 0, 0) + "trick t ticks 3 arms 40 worth 1 when all;");
+        x = Watched.made(bar("a", 0, 8, 0, 0) + "trick t ticks 3 arms 40 worth 1 when all;");
         CHECKS.due("idle with one bar", x.idle(0), 1);
-        x = Checks.made(bar("a", 0, 8, 0, 0) + bar("b", 0, 8, 0, 0) + "trick t ticks 3 arms 40 worth 1 when tick>118;"
+        x = Watched.made(bar("a", 0, 8, 0, 0) + bar("b", 0, 8, 0, 0) + "trick t ticks 3 arms 40 worth 1 when tick>118;"
                 + "trick u ticks 3 arms 40 worth 1 when tick>119;");
         CHECKS.due("not idle at 119", x.idle(0), 0);
         CHECKS.due("idle by 119", x.idle(1), 1);
-        x = Checks.made(far + "trick t ticks 3 arms 40 worth 1 when done>0 or again=1;");
+        x = Watched.made(far + "trick t ticks 3 arms 40 worth 1 when done>0 or again=1;");
         CHECKS.due("done and again are 0", x.change(1, 8, 0, 60) && x.idle(0) == 1, true);
     }
 
-    private static void against(Model model, FlyingBars x, String seed) {
+    private static void against(Model model, Watched x, String seed) {
         for (int i = 0; i < 60; i++) {
             int from = model.random.nextInt(model.bars);
             int to = model.random.nextInt(model.bars);
@@ -188,14 +188,14 @@ public final class SwingTest {
             boolean idle = true;
             for (int from = 0; from < model.bars; from++) {
                 for (int to = 0; to < model.bars; to++) {
-                    idle &= from == to || window(model, x, seed, from, trick, to) == 0;
+                    idle &= from == to || window(model, Watched.made(model.text), seed, from, trick, to) == 0;
                 }
             }
             CHECKS.due(seed + " idle", x.idle(trick), idle ? 1 : 0);
         }
     }
 
-    private static int window(Model model, FlyingBars x, String seed, int from, int trick, int to) {
+    private static int window(Model model, Watched x, String seed, int from, int trick, int to) {
         int found = 0;
         int least = 0;
         for (int tick = 0; tick < 120; tick++) {

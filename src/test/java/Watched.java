@@ -31,11 +31,7 @@ final class Watched {
     /** Puts bytes behind those on the tape, which are so many. */
     void lay(int ahead, byte[] bytes) {
         for (int fed = 0; fed < bytes.length; fed += 20) {
-            int[] words = new int[5];
-            for (int i = 0; i < 20; i++) {
-                int octet = fed + i < bytes.length ? bytes[fed + i] & 255 : 32;
-                words[i / 4] = words[i / 4] << 8 | octet;
-            }
+            int[] words = Checks.words(bytes, fed);
             if (feed(words[0], words[1], words[2], words[3], words[4]) == FlyingBars.NONE) {
                 throw new IllegalStateException("no room for " + bytes.length + " bytes behind " + ahead);
             }
@@ -76,6 +72,15 @@ final class Watched {
             octet = octet(k);
         }
         return all.toString();
+    }
+
+    /** The bytes of a new image of the bill. */
+    byte[] imageBytes() {
+        byte[] bytes = new byte[image()];
+        for (int i = 0; i < bytes.length; i++) {
+            bytes[i] = (byte) octet(i);
+        }
+        return bytes;
     }
 
     /** All that the other calls show, in some 300 calls; the tape is read at the end, so it is gone then. */
