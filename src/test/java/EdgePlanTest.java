@@ -75,6 +75,11 @@ public final class EdgePlanTest {
             EDGES.due("take(" + r[0] + ", " + r[1] + ", " + r[2] + ")", Scenes.planDown().take(r[0], r[1], r[2]), true);
         }
         EDGES.due("take without bars", new Watched().take(0, 0, 0), false);
+        for (int place = 0; place <= 6; place++) {
+            Watched x = Watched.made("bar a at 0 every 4 from 0 reach 0;board p at " + place + ";");
+            EDGES.row("bars beside a board at " + place, new int[] {x.take(0, 0, -1) ? 1 : 0, x.take(0, 0, 0) ? 1 : 0, x.take(0, 0, 1) ? 1 : 0, x.take(0, 0, 7) ? 1 : 0,
+                x.take(0, 0, 8) ? 1 : 0, x.take(1, 0, 0) ? 1 : 0}, 0, place <= 5 ? 1 : 0, 0, 0, 0, 0);
+        }
     }
 
     private static void flightMore() {

@@ -117,6 +117,12 @@ public final class EdgeSearchTest {
             EDGES.row("trick " + only + " again and again", new int[] {x.soonest(0, 0, 1, 8), x.soonest(0, 0, 2, 8), x.soonest(0, 0, 8, 8), x.best(0, 0, 8, 80), x.step(7, 1),
                 x.ways(0, 0, 8, 2), x.barred(0, 0, 8, 80, true, only)}, 1, 2, 8, 40, only, 8 * (6 + 7 * 4 + 49), 0);
         }
+        x = Watched.made(STILL + "bar c at 39 every 4 from 0 reach 0;trick t ticks 1 arms 40 worth 5 when again=1;trick u ticks 1 arms 40 worth 5 when again=1;");
+        EDGES.row("the first flight is never one more", new int[] {x.soonest(0, 0, 0, 8), x.soonest(0, 0, 1, 8), x.best(0, 0, 8, 80), x.has(5), x.ways(0, 0, 8, 1), x.reached(0, 8, 80)},
+                0, NONE, 0, 0, 6, 3);
+        x = Watched.made(STILL + "bar c at 39 every 4 from 0 reach 0;trick t ticks 1 arms 0 worth 5 when done=0;trick u ticks 1 arms 40 worth 5 when again=1;");
+        EDGES.row("nor is one by another trick", new int[] {x.soonest(0, 0, 1, 8), x.soonest(0, 0, 2, 8), x.best(0, 0, 8, 80), x.has(5), x.ways(0, 0, 8, 1), x.reached(0, 8, 80)},
+                1, NONE, 5, 1, 8, 3);
         x = Watched.made("bar a at 9 every 4 from 0 reach 0;bar b at 39 every 4 from 0 reach 0;bar c at 69 every 4 from 0 reach 0;board p at 9;"
                 + "trick t ticks 1 arms 30 worth 1 when done=0 or again=1;trick u ticks 1 arms 30 worth 1 when done=1 and again=1;");
         EDGES.row("reached by the same trick twice", new int[] {x.reached(0, 1, 80), x.reached(0, 2, 1), x.reached(0, 2, 2), x.barred(0, 0, 2, 80, true, 0)}, 3, 3, 7, 0);
@@ -172,7 +178,7 @@ public final class EdgeSearchTest {
         EDGES.of("Promise 14", "NONE when something can't be");
         int[][] wrong = {{-1, 0, 1, 80}, {2, 0, 1, 80}, {0, -1, 1, 80}, {0, 2, 1, 80}, {0, 1, -1, 80}, {0, 1, 9, 80}, {0, 1, 1, -1}, {0, 1, 1, 81},
             {Integer.MAX_VALUE, 0, 1, 80}, {0, Integer.MIN_VALUE, 1, 80}, {0, 1, Integer.MAX_VALUE, 80}, {0, 1, 1, Integer.MAX_VALUE},
-            {0, 1, Integer.MIN_VALUE, 80}, {0, 1, 1, Integer.MIN_VALUE}};
+            {0, 1, Integer.MIN_VALUE, 80}, {0, 1, 1, Integer.MIN_VALUE}, {0, 0, -1, 80}, {0, 0, 9, 80}, {0, 0, 1, -1}, {0, 0, 1, 81}, {1, 1, -1, 80}, {1, 1, 0, 81}};
         for (int[] w : wrong) {
             EDGES.stays("best(" + w[0] + ", " + w[1] + ", " + w[2] + ", " + w[3] + ")", Scenes::planOpen, NONE, x -> x.best(w[0], w[1], w[2], w[3]));
         }
@@ -310,6 +316,11 @@ public final class EdgeSearchTest {
         EDGES.due("a miss of 4 with arms of 3", x.best(0, 0, 8, 80), 0);
         x = Watched.made("bar a at 9 every 4 from 0 reach 0;bar b at 13 every 4 from 0 reach 0;board p at 9;trick t ticks 1 arms 4 worth 5 when all;");
         EDGES.due("a miss of 4 with arms of 4", x.best(0, 0, 8, 80), 40);
+        // From a to d it goes by c for nothing; by b it would be worth more, but no first flight goes there.
+        x = Watched.made("bar a at 100 every 4 from 0 reach 0;bar b at 110 every 4 from 0 reach 0;bar c at 111 every 4 from 0 reach 0;bar d at 121 every 4 from 0 reach 0;"
+                + "catcher b;board p at 95;board q at 126;trick t ticks 1 arms 11 worth 1 when done=1 and thrown=1;trick u ticks 1 arms 11 worth 0 when caught=0;");
+        EDGES.due("best", x.best(0, 1, 2, 80), 0);
+        EDGES.row("good ones alone", plan(x), 0, 0, 0, 1, 2, 0, 1, 1, 3, 0, 2, 1);
         x = Watched.made("bar a at 9 every 4 from 0 reach 0;board p at 9;trick t ticks 1 arms 40 worth 5 when all;");
         EDGES.row("never to the bar itself", new int[] {x.best(0, 0, 8, 80), x.soonest(0, 0, 1, 8), x.ways(0, 0, 8, 1)}, 0, NONE, 3);
     }
@@ -439,8 +450,8 @@ public final class EdgeSearchTest {
 
     private static void barredRefused() {
         EDGES.of("Promise 19", "NONE when something can't be, or there is none.");
-        int[][] wrong = {{-1, 0, 1, 80, 0, 0}, {2, 0, 1, 80, 0, 0}, {0, -1, 1, 80, 0, 0}, {0, 2, 1, 80, 0, 0}, {0, 0, -1, 80, 0, 0}, {0, 0, 9, 80, 0, 0},
-            {0, 0, 1, -1, 0, 0}, {0, 0, 1, 81, 0, 0}, {0, 0, 1, 80, 0, -1}, {0, 0, 1, 80, 0, 3}, {0, 0, 1, 80, 1, -1}, {0, 0, 1, 80, 1, 2},
+        int[][] wrong = {{-1, 0, 1, 80, 0, 2}, {2, 0, 1, 80, 0, 2}, {0, -1, 1, 80, 0, 2}, {0, 2, 1, 80, 0, 2}, {0, 0, -1, 80, 0, 2}, {0, 0, 9, 80, 0, 2},
+            {0, 0, 1, -1, 0, 2}, {0, 0, 1, 81, 0, 2}, {0, 0, -1, 80, 1, 1}, {0, 0, 9, 80, 1, 1}, {0, 0, 1, -1, 1, 1}, {0, 0, 1, 81, 1, 1}, {0, 0, 1, 80, 0, -1}, {0, 0, 1, 80, 0, 3}, {0, 0, 1, 80, 1, -1}, {0, 0, 1, 80, 1, 2},
             {0, 0, 1, 80, 0, Integer.MAX_VALUE}, {0, 0, 1, 80, 1, Integer.MIN_VALUE}, {0, 1, 1, 80, 0, 0}, {0, 1, 0, 80, 1, 0}, {0, 1, 1, 11, 0, 1}};
         for (int[] w : wrong) {
             EDGES.stays("barred(" + w[0] + ", " + w[1] + ", " + w[2] + ", " + w[3] + ", " + (w[4] == 1) + ", " + w[5] + ")", Scenes::planOpen, NONE,
@@ -448,6 +459,7 @@ public final class EdgeSearchTest {
         }
         Watched x = Scenes.noPlan();
         EDGES.row("the last ones", new int[] {x.barred(0, 1, 1, 80, false, 2), x.barred(0, 1, 1, 80, true, 1), x.barred(0, 1, 1, 12, false, 2)}, 40, 40, 40);
+        EDGES.row("beside them", new int[] {x.barred(0, 0, 0, 80, false, 2), x.barred(0, 0, 8, 0, false, 2), x.barred(0, 0, 0, 0, true, 1), x.barred(1, 1, 0, 80, true, 0)}, 0, 0, 0, 0);
         EDGES.due("without boards", new Watched().barred(0, 0, 0, 0, false, 0), NONE);
     }
 
