@@ -1,20 +1,10 @@
-import java.util.ArrayList;
-import java.util.List;
+import java.util.Arrays;
 
-/** Promises 26 to 37: the bill and its images, by hand and against acts laid beside each other naively. */
+/** Promises 26 to 37: the bill and its images, by hand and against a stage on which acts are laid beside each other. */
 public final class BillTest {
     private static final Checks CHECKS = new Checks();
     private static final int NONE = FlyingBars.NONE;
     private static final String STILL = "bar a at 9 every 4 from 0 reach 0;bar b at 9 every 4 from 0 reach 0;board p at 9;";
-
-    record Flight(int tick, int trick, int bar, int worth) {
-    }
-
-    record Act(int shift, int board, int tick, int bar, List<Flight> flights, int endTick, int endBoard) {
-        Act shifted(int by) {
-            return new Act(by, board, tick, bar, flights, endTick, endBoard);
-        }
-    }
 
     private static int quarrels;
     private static int failures;
@@ -32,8 +22,7 @@ public final class BillTest {
         filling();
         images();
         for (int seed = 0; seed < 500; seed++) {
-            Model model = new Model(seed, 4, 3);
-            against(model, "seed " + seed);
+            against(new Stage(new Model(seed, 4, 3)), "seed " + seed);
         }
         CHECKS.due("the runs had quarrels", quarrels > 200, true);
         CHECKS.due("the runs had failing acts", failures > 200, true);
@@ -301,9 +290,9 @@ public final class BillTest {
         byte[] wrongEnd = Checks.sealed(want);
         wrongEnd[want.length] ^= 1;
         CHECKS.due("another last byte", x.on(wrongEnd), false);
-        byte[] longer = java.util.Arrays.copyOf(Checks.sealed(want), want.length + 2);
+        byte[] longer = Arrays.copyOf(Checks.sealed(want), want.length + 2);
         CHECKS.due("a byte more", x.on(longer), false);
-        CHECKS.due("a byte less", x.on(java.util.Arrays.copyOf(longer, want.length)), false);
+        CHECKS.due("a byte less", x.on(Arrays.copyOf(longer, want.length)), false);
         CHECKS.due("no byte", x.on(new byte[0]), false);
         CHECKS.due("one byte", x.on(new byte[] {0}), false);
         CHECKS.due("acts stay", x.has(4), 2);
@@ -317,209 +306,92 @@ public final class BillTest {
         CHECKS.due("it fails", x.fails(0), 0);
     }
 
-    /** What act does at a tick: a bar, or 100 and more for the place in the air, and the trick. */
-    private static int[] state(Model model, Act act, int tick) {
-        int bar = act.bar;
-        int came = act.tick + act.shift;
-        for (Flight f : act.flights) {
-            int goes = f.tick + act.shift;
-            if (came <= tick && tick <= goes) {
-                return new int[] {bar, 0, 0};
-            }
-            if (goes < tick && tick < goes + model.ticks[f.trick]) {
-                int place = model.where(bar, goes) + (tick - goes) * model.speed(bar, goes);
-                return new int[] {-1, place, f.trick};
-            }
-            bar = f.bar;
-            came = goes + model.ticks[f.trick];
-        }
-        return came <= tick && tick <= act.endTick + act.shift ? new int[] {bar, 0, 0} : null;
-    }
-
-    private static int quarrel(Model model, Act a, Act b) {
-        for (int t = 0; t <= 500; t++) {
-            int[] one = state(model, a, t);
-            int[] two = state(model, b, t);
-            if (one == null || two == null) {
-                continue;
-            }
-            boolean hang = one[0] >= 0 && one[0] == two[0];
-            boolean meet = one[0] < 0 && two[0] < 0 && Math.abs(one[1] - two[1]) <= 2;
-            if (hang || meet) {
-                return t;
-            }
-        }
-        return NONE;
-    }
-
-    private static int fails(Model model, Act act) {
-        if (!model.by(act.bar, act.board, act.tick + act.shift)) {
-            return 0;
-        }
-        int bar = act.bar;
-        int last = -1;
-        for (int i = 0; i < act.flights.size(); i++) {
-            Flight f = act.flights.get(i);
-            if (!model.good(bar, f.tick + act.shift, f.trick, f.bar, i, f.trick == last)) {
-                return i + 1;
-            }
-            bar = f.bar;
-            last = f.trick;
-        }
-        return model.by(bar, act.endBoard, act.endTick + act.shift) ? NONE : act.flights.size() + 1;
-    }
-
-    private static int leastShift(Model model, List<Act> bill, Act plan) {
-        for (int s = 0; s <= 400; s++) {
-            Act act = plan.shifted(s);
-            boolean well = fails(model, act) == NONE;
-            for (Act other : bill) {
-                well = well && quarrel(model, act, other) == NONE;
-            }
-            if (well) {
-                return s;
-            }
-        }
-        return NONE;
-    }
-
-    private static int slack(Model model, Act act, int bar, boolean grows) {
-        if (fails(model, act) != NONE) {
-            return NONE;
-        }
-        int phase = model.phase[bar];
-        int found = NONE;
-        for (int by = 1; by <= 39 && found == NONE; by++) {
-            int other = grows ? phase + by : phase - by;
-            while (other < 0) {
-                other += model.period[bar];
-            }
-            while (other > 39) {
-                other -= model.period[bar];
-            }
-            model.phase[bar] = other;
-            found = fails(model, act) == NONE ? NONE : by;
-        }
-        model.phase[bar] = phase;
-        return found;
-    }
-
-    private static Act planOf(Watched x) {
-        List<Flight> flights = new ArrayList<>();
-        for (int i = 0; i < x.has(5); i++) {
-            flights.add(new Flight(x.step(i, 0), x.step(i, 1), x.step(i, 2), x.step(i, 3)));
-        }
-        return new Act(0, x.plan(2), x.plan(0), x.plan(1), flights, x.plan(3), x.plan(4));
-    }
-
-    private static void against(Model model, String seed) {
-        List<Act> bill = new ArrayList<>();
+    private static void against(Stage stage, String seed) {
+        Model model = stage.model;
         Watched x = Watched.made(model.text);
         for (int round = 0; round < 8; round++) {
             int from = model.random.nextInt(model.boards);
             int to = model.random.nextInt(model.boards);
+            int n = model.random.nextInt(4);
             int by = 10 + model.random.nextInt(40);
-            x.best(from, to, model.random.nextInt(4), by);
-            if (x.plan(0) == NONE) {
+            CHECKS.due(seed + " best", x.best(from, to, n, by), stage.best(from, to, n, by));
+            if (stage.plan == null) {
                 continue;
             }
-            Act plan = planOf(x);
-            int least = leastShift(model, bill, plan);
+            int least = stage.shift();
             CHECKS.due(seed + " shift", x.shift(), least);
-            int shift = least != NONE && model.random.nextBoolean() ? least : model.random.nextInt(401);
-            for (int s = 0; bill.size() > 1 && model.random.nextInt(3) > 0 && s < 40; s++) {
-                shift = fails(model, plan.shifted(s)) == NONE ? s : shift;
+            int shift = anyShift(stage, least);
+            CHECKS.due(seed + " book", x.book(shift), stage.book(shift));
+            if (stage.bill.size() > 3 && model.random.nextInt(3) == 0) {
+                CHECKS.due(seed + " unbook", x.unbook(), stage.unbook());
             }
-            boolean can = bill.size() < 6 && fails(model, plan.shifted(shift)) == NONE;
-            if (can) {
-                bill.add(plan.shifted(shift));
-            }
-            CHECKS.due(seed + " book", x.book(shift), can ? bill.size() : NONE);
-            if (bill.size() > 3 && model.random.nextInt(3) == 0) {
-                bill.remove(bill.size() - 1);
-                CHECKS.due(seed + " unbook", x.unbook(), bill.size());
-            }
-            look(model, x, bill, seed);
-            sway(model, x);
+            look(stage, x, seed);
+            sway(stage, x);
             if (model.random.nextInt(3) == 0) {
-                fill(model, x, bill, seed, from, to);
+                fill(stage, x, seed, from, to);
             }
-            x = reread(model, x, seed);
+            x = reread(stage, x, seed);
         }
     }
 
-    private static void look(Model model, Watched x, List<Act> bill, String seed) {
-        int worth = 0;
-        int last = 0;
-        int most = 0;
-        for (int i = 0; i < bill.size(); i++) {
-            Act act = bill.get(i);
-            for (Flight f : act.flights) {
-                worth += f.worth;
-            }
-            last = Math.max(last, act.endTick + act.shift);
-            for (int j = 0; j < bill.size(); j++) {
-                int first = i == j ? NONE : quarrel(model, act, bill.get(j));
+    /** Often a small one by which the plan is good, so that acts come to quarrel. */
+    private static int anyShift(Stage stage, int least) {
+        Model model = stage.model;
+        int shift = least != NONE && model.random.nextBoolean() ? least : model.random.nextInt(401);
+        for (int s = 0; stage.bill.size() > 1 && model.random.nextInt(3) > 0 && s < 40; s++) {
+            shift = stage.isGoodBy(s) ? s : shift;
+        }
+        return shift;
+    }
+
+    private static void look(Stage stage, Watched x, String seed) {
+        Model model = stage.model;
+        for (int i = 0; i < stage.bill.size(); i++) {
+            for (int j = 0; j < stage.bill.size(); j++) {
+                int first = stage.quarrel(i, j);
                 quarrels += first == NONE ? 0 : 1;
                 CHECKS.due(seed + " quarrel", x.quarrel(i, j), first);
             }
-            CHECKS.due(seed + " fails", x.fails(i), fails(model, act));
-            failures += fails(model, act) == NONE ? 0 : 1;
+            int fails = stage.fails(i);
+            failures += fails == NONE ? 0 : 1;
+            CHECKS.due(seed + " fails", x.fails(i), fails);
             for (int bar = 0; bar < model.bars; bar++) {
                 boolean grows = model.random.nextBoolean();
-                int slack = slack(model, act, bar, grows);
+                int slack = stage.slack(i, bar, grows);
                 slacks += slack > 1 ? 1 : 0;
                 CHECKS.due(seed + " slack", x.slack(i, bar, grows), slack);
             }
             for (int k = 0; k < 4; k++) {
-                int tick = act.tick + act.shift - 2 + model.random.nextInt(25);
-                int[] state = tick < 0 || tick > 500 ? null : state(model, act, tick);
-                CHECKS.due(seed + " at", x.at(i, tick), state == null ? NONE : state[0] >= 0 ? state[0] : 10 + state[2]);
+                int tick = stage.bill.get(i).tick() + stage.bill.get(i).shift() - 2 + model.random.nextInt(25);
+                CHECKS.due(seed + " at", x.at(i, tick), stage.at(i, tick));
             }
         }
-        for (int t = 0; t <= 500; t++) {
-            int there = 0;
-            for (Act act : bill) {
-                there += state(model, act, t) == null ? 0 : 1;
-            }
-            most = Math.max(most, there);
+        for (int what = 0; what < 3; what++) {
+            CHECKS.due(seed + " bill(" + what + ")", x.bill(what), stage.bill(what));
         }
-        CHECKS.due(seed + " bill(0)", x.bill(0), worth);
-        CHECKS.due(seed + " bill(1)", x.bill(1), last);
-        CHECKS.due(seed + " bill(2)", x.bill(2), most);
     }
 
-    private static void sway(Model model, Watched x) {
+    private static void sway(Stage stage, Watched x) {
+        Model model = stage.model;
         int bar = model.random.nextInt(model.bars);
         if (model.random.nextInt(3) == 0) {
-            model.phase[bar] = model.random.nextInt(40);
-            model.reach[bar] = model.random.nextInt(30);
+            stage.change(bar, model.period[bar], model.random.nextInt(40), model.random.nextInt(30));
             x.change(bar, model.period[bar], model.phase[bar], model.reach[bar]);
         }
     }
 
-    private static void fill(Model model, Watched x, List<Act> bill, String seed, int from, int to) {
-        int before = bill.size();
-        Model.Found best = model.best(from, to, 2, 30);
-        int came = x.fill(from, to, 2, 30);
-        if (best != null && before < 6) {
-            Act plan = planOf(x);
-            CHECKS.due(seed + " the best is the plan", x.plan(5) * 100 + x.plan(3), best.worth() * 100 + best.end());
-            int shift = 0;
-            while (bill.size() < 6 && shift != NONE) {
-                shift = leastShift(model, bill, plan);
-                if (shift != NONE) {
-                    bill.add(plan.shifted(shift));
-                }
-            }
-        }
+    private static void fill(Stage stage, Watched x, String seed, int from, int to) {
+        int came = stage.fill(from, to, 2, 30);
         fills += came > 0 ? 1 : 0;
-        CHECKS.due(seed + " fill", came, bill.size() - before);
-        look(model, x, bill, seed);
+        CHECKS.due(seed + " fill", x.fill(from, to, 2, 30), came);
+        CHECKS.due(seed + " plan(3)", x.plan(3), stage.plan(3));
+        CHECKS.due(seed + " plan(5)", x.plan(5), stage.plan(5));
+        look(stage, x, seed);
     }
 
-    /** The bill goes on in a new object, as its image tells it; another one tells the same image. */
-    private static Watched reread(Model model, Watched x, String seed) {
+    /** The bill goes on in a new object, as its image tells it, without a plan; another one tells the same image. */
+    private static Watched reread(Stage stage, Watched x, String seed) {
+        Model model = stage.model;
         byte[] image = x.imageBytes();
         Watched next = Watched.made(model.text);
         for (int bar = 0; bar < model.bars; bar++) {
@@ -527,9 +399,10 @@ public final class BillTest {
         }
         CHECKS.due(seed + " on", next.on(image), true);
         CHECKS.due(seed + " acts", next.has(4), x.has(4));
+        stage.plan = null;
         Watched other = Watched.made(model.text);
         other.on(image);
-        CHECKS.due(seed + " the same image", java.util.Arrays.equals(image, other.imageBytes()), true);
+        CHECKS.due(seed + " the same image", Arrays.equals(image, other.imageBytes()), true);
         return next;
     }
 }
